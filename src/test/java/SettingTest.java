@@ -73,6 +73,9 @@ public final class SettingTest {
         Due.is(2, Due.text(x, "cost n*n*n*200+h*10+l"));
         Due.row(Due.of(402 + 402 + 502, 3), x.setting(-2), x.setting(-1));
         Due.row(Due.of(402, 402, 502), x.line(0, 4), x.line(1, 4), x.line(2, 4));
+        BookBoards y = withBooks(2010, 2010, 2110);
+        Due.text(y, "cost h*n");
+        Due.row(Due.of(61, 2, 40, 21), y.setting(-2), y.setting(-1), y.line(0, 4), y.line(1, 4));
         x.set(1, 9);
         Due.is(409, x.line(0, 4));
         x.allow(50);
@@ -148,6 +151,15 @@ public final class SettingTest {
         x.set(2, 999);
         x.set(0, 49);
         Due.is(NONE, x.cases(0));
+        // Two lines by pairs: the lesser height is used, whichever way comes first.
+        x = withBooks(3050, 3050, 1050);
+        Due.row(Due.of(1, 32 + 12), x.cases(0), x.cases(1));
+        x = withBooks(1050, 3050, 3050);
+        Due.row(Due.of(1, 12 + 32), x.cases(0), x.cases(1));
+        x.set(2, 43);
+        Due.row(Due.of(2, 32), x.cases(0), x.cases(1));
+        x.allow(29);
+        Due.all(NONE, x.cases(0), x.cases(1));
         // A text of prices does not matter here; ties and allowed heights do.
         x = withBooks(3050, 2050);
         Due.text(x, "cost 1");
@@ -192,6 +204,16 @@ public final class SettingTest {
         x = withBooks(1010, 2010, 3010, 4010);
         Due.row(Due.of(42, 10, 40), x.few(2, -1), x.few(2, 0), x.few(2, 1));
         Due.row(Due.of(42, 10, 20, 40), x.few(3, -1), x.few(3, 0), x.few(3, 1), x.few(3, 2));
+        // Sets in the midst of all of them, and the last one.
+        x = withBooks(1060, 2060, 2060, 2060, 3060, 4060, 4060, 5060);
+        x.set(1, 0);
+        Due.row(Due.of(400, 280, 20, 50), x.few(1, -1), x.few(2, -1), x.few(2, 0), x.few(2, 1));
+        Due.row(Due.of(250, 20, 40, 50), x.few(3, -1), x.few(3, 0), x.few(3, 1), x.few(3, 2));
+        x = withBooks(3060, 3060, 3060, 3060, 4060, 4060, 4060, 1060, 5060);
+        x.set(1, 0);
+        Due.row(Due.of(320, 30, 40, 50), x.few(3, -1), x.few(3, 0), x.few(3, 1), x.few(3, 2));
+        Due.text(x, "cost 0");
+        Due.row(Due.of(0, 10, 30, 50), x.few(3, -1), x.few(3, 0), x.few(3, 1), x.few(3, 2));
         // Ties count, and the text of prices.
         x = withBooks(2060, 4030, 2030);
         x.set(1, 0);
@@ -237,6 +259,28 @@ public final class SettingTest {
         Due.row(Due.of(42 + 22 + 700, 42 + 800, 42), x.apart(40), x.apart(20), x.apart(41));
     }
 
+    /** Some books of few heights: the edge is the greatest t for which apart answers the least. */
+    private static void edgeIsLeast() {
+        int inTheMidst = 0;
+        for (int seed = 1; seed <= 20; seed++) {
+            BookBoards x = new BookBoards();
+            x.seed(seed);
+            x.deal(12);
+            for (int i = 0; i < 12; i++) {
+                x.book(100 * (10 + 20 * (i * seed % 4)) + 20, i % 8);
+            }
+            x.set(0, 40 + seed);
+            Due.text(x, "walk p/3");
+            int best = 100;
+            for (int t = 99; t >= 1; t--) {
+                best = x.apart(t) < x.apart(best) ? t : best;
+            }
+            Due.is(best, x.edge());
+            inTheMidst += best < 70 ? 1 : 0;
+        }
+        Due.isTrue(inTheMidst > 3, "edges below 70: " + inTheMidst);
+    }
+
     private static void promise21Edge() {
         Due.is(100, new BookBoards().edge());
         BookBoards x = withBooks(2060, 4050, 2040, 4050, 2060, 4040);
@@ -255,6 +299,10 @@ public final class SettingTest {
         x.set(0, 60);
         x.allow(39);
         Due.is(NONE, x.edge());
+        x = withBooks(2060, 9950, 2040, 9950);
+        x.set(1, 0);
+        Due.row(Due.of(218, 129, 99), x.apart(100), x.apart(99), x.edge());
+        edgeIsLeast();
         // A single tall book of the lowest height there can be.
         x = withBooks(101);
         Due.is(100, x.edge());

@@ -82,6 +82,11 @@ public final class SheetsTest {
         Due.row(Due.of(3, 3), x.pour(0, 7), x.count(0));
         Due.row(Due.of(1, 1, 7, 0), x.bookTold(0, 0), x.bookTold(0, 1), x.bookTold(0, 2), x.bookTold(0, 3));
         Due.row(Due.of(25, 99, 7, 99), x.bookTold(1, 0), x.bookTold(1, 1), x.bookTold(2, 2), x.bookTold(2, 0));
+        BookBoards y = new BookBoards();
+        fill(y, 0, 0, 9901, 9999, 5050, 199);
+        Due.is(4, y.pour(0, 0));
+        Due.row(Due.of(99, 1, 99, 99), y.bookTold(0, 0), y.bookTold(0, 1), y.bookTold(1, 0), y.bookTold(1, 1));
+        Due.row(Due.of(50, 50, 1, 99), y.bookTold(2, 0), y.bookTold(2, 1), y.bookTold(3, 0), y.bookTold(3, 1));
         fill(x, 1, 1, 2010, NONE, 2010);
         Due.row(Due.of(1, 4, 0), x.pour(1, 0), x.count(0), x.bookTold(3, 2));
         fill(x, 1, 1, 2010, 2011, 99999);

@@ -98,6 +98,10 @@ public final class TextsTest {
         fault(5, "grow h");
         fault(5, "grow n");
         fault(5, "cost hh");
+        fault(5, "cost hz");
+        fault(5, "cost ha");
+        fault(6, "cost !");
+        fault(6, "cost !)");
         fault(5, "cost cost");
         fault(6, "cost h5");
         fault(6, "cost 5h");

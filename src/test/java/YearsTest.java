@@ -55,6 +55,14 @@ public final class YearsTest {
         Due.row(Due.of(2, 1, 258), x.fullBy(), x.most(2, 0), x.most(2, 1));
         Due.text(x, "grow 0");
         Due.is(NONE, x.fullBy());
+        // What grew at an earlier call does not count where there are no lines any more.
+        BookBoards y = new BookBoards();
+        y.keep();
+        y.book(2099, 0);
+        Due.text(y, "grow 99");
+        Due.row(Due.of(1, 198), y.fullBy(), y.most(1, 1));
+        y.back();
+        Due.row(Due.of(NONE, NONE, NONE), y.fullBy(), y.most(1, 1), y.most(0, 0));
         // Nothing grows for a part of which there is no book.
         Due.text(x, "grow (p=0)*50");
         Due.is(NONE, x.fullBy());
@@ -92,6 +100,12 @@ public final class YearsTest {
         x.book(2001, 0);
         Due.row(Due.of(0, 2, 4, 5, 5), x.wall(0, 99), x.wall(1, 30), x.wall(2, 30), x.wall(3, 30), x.wall(24, 99));
         Due.row(Due.of(1, 0, 1), x.wall(3, 29), x.wall(3, 19), x.wall(3, 20));
+        BookBoards y = new BookBoards();
+        y.book(2001, 0);
+        y.book(2001, 0);
+        Due.row(Due.of(0, 2, 2), y.wall(0, 99), y.wall(1, 20), y.wall(2, 20));
+        y.set(0, 1);
+        Due.row(Due.of(0, 1, 2, 2), y.wall(0, 99), y.wall(1, 20), y.wall(2, 20), y.wall(3, 20));
         x.tie(1, true);
         Due.is(2, x.wall(1, 30));
         x.allow(10);
@@ -134,6 +148,12 @@ public final class YearsTest {
         Due.row(Due.of(6, 3), x.count(0), x.setting(-1));
         Due.all(BAD, x.shift(7, 2050), x.shift(-1, 2050), x.shift(0, 2000), x.shift(0, 100), x.shift(0, 10000),
                 x.shift(LEAST, 2050), x.shift(GREATEST, 2050), x.shift(0, LEAST), x.shift(0, GREATEST));
+        // The height of what comes counts: a low one is set by itself ahead of both, a high one with the first.
+        x = new BookBoards();
+        x.book(2050, 0);
+        x.book(9040, 0);
+        Due.row(Due.of(1, 2, 1, 1), x.setting(-1), x.shift(0, 1020), x.shift(0, 9020), x.shift(0, 2020));
+        Due.row(Due.of(0, 1, 0, 1), x.shift(0, 1010), x.shift(1, 1020), x.shift(2, 1060), x.shift(2, 9060));
         // A tie is parted where the book comes, and there alone.
         x = new BookBoards();
         x.book(2050, 0);
