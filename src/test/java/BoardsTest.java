@@ -56,6 +56,15 @@ public final class BoardsTest {
                 x.told(4, 5), x.told(5, 5));
         Due.row(Due.of(3, 12, 3, 15, 6, 8), x.told(0, 6), x.told(1, 6), x.told(2, 6), x.told(3, 6), x.told(4, 6),
                 x.told(5, 6));
+        BookBoards y = new BookBoards();
+        y.book(5010, 0);
+        y.book(2020, 0);
+        y.book(4030, 0);
+        y.board(0, 1, 0);
+        y.board(0, 101, 0);
+        y.board(4, 102, 0);
+        Due.row(Due.of(50, 20, 50), y.told(0, 4), y.told(1, 4), y.told(2, 4));
+        Due.row(Due.of(30, 20, 40), y.told(0, 5), y.told(1, 5), y.told(2, 5));
         x.board(3, 101, 0);
         Due.row(Due.of(8, 32, 4), x.told(6, 5), x.told(6, 4), x.told(6, 6));
         x.board(4, 203, 0);
@@ -135,6 +144,11 @@ public final class BoardsTest {
         Due.row(Due.of(2, 1, 0, BAD), x.drop(2), x.drop(0), x.drop(0), x.drop(0));
         Due.is(0, x.board(5, 0, 7));
         Due.is(7, x.told(0, 4));
+        for (int i = 1; i < 12; i++) {
+            x.board(0, 0, 30 + i);
+        }
+        Due.row(Due.of(11, 31, 41, BAD), x.drop(0), x.told(0, 3), x.told(10, 3), x.told(11, 3));
+        Due.row(Due.of(10, 31, 40), x.drop(10), x.told(0, 3), x.told(9, 3));
     }
 
     private static void promise13Judge() {

@@ -49,7 +49,29 @@ public final class ModelTest {
         }
     }
 
+    /** Books, boards, texts and allowed heights up to their limits. */
+    private boolean fills() {
+        boolean is = true;
+        for (int i = 0; i < 24 && is; i++) {
+            int size = 100 * (1 + dice.nextInt(99)) + 1 + dice.nextInt(40);
+            int part = i % 8;
+            is = same("book(" + size + ", " + part + ")", slow.book(size, part), x.book(size, part));
+        }
+        for (int i = 0; i < 12 && is; i++) {
+            int b = 100 * i + 23 - i;
+            int kind = i % 6;
+            is = same("board(" + kind + ", " + b + ", 9)", slow.board(kind, b, 9), x.board(kind, b, 9));
+        }
+        while (slow.now.texts.size() < 14 && calls.size() < 300 && is) {
+            is = someText();
+        }
+        return is;
+    }
+
     private boolean goes() {
+        if (mood == 9 && dice.nextInt(3) == 0 && !fills()) {
+            return false;
+        }
         int many = 60 + dice.nextInt(430);
         // A step may be many calls, and an object is used for 512 of them.
         while (calls.size() < Math.min(many, 512 - 70)) {

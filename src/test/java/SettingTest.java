@@ -151,6 +151,13 @@ public final class SettingTest {
         x.set(2, 999);
         x.set(0, 49);
         Due.is(NONE, x.cases(0));
+        // A case that is full to its greatest height.
+        x = withBooks(9960, 9960, 9960, 9960, 9960, 9960, 9960, 9960, 9960, 1860);
+        x.set(1, 9);
+        x.set(2, 999);
+        Due.row(Due.of(1, 999), x.cases(0), x.cases(1));
+        x.set(2, 998);
+        Due.row(Due.of(2, 27), x.cases(0), x.cases(1));
         // Two lines by pairs: the lesser height is used, whichever way comes first.
         x = withBooks(3050, 3050, 1050);
         Due.row(Due.of(1, 32 + 12), x.cases(0), x.cases(1));
@@ -212,8 +219,11 @@ public final class SettingTest {
         x = withBooks(3060, 3060, 3060, 3060, 4060, 4060, 4060, 1060, 5060);
         x.set(1, 0);
         Due.row(Due.of(320, 30, 40, 50), x.few(3, -1), x.few(3, 0), x.few(3, 1), x.few(3, 2));
+        x = withBooks(2060, 2060, 2060, 3060, 3060, 3060, 1060, 4060, 5060);
+        x.set(1, 0);
+        Due.row(Due.of(270, 20, 30, 50), x.few(3, -1), x.few(3, 0), x.few(3, 1), x.few(3, 2));
         Due.text(x, "cost 0");
-        Due.row(Due.of(0, 10, 30, 50), x.few(3, -1), x.few(3, 0), x.few(3, 1), x.few(3, 2));
+        Due.row(Due.of(0, 10, 20, 50), x.few(3, -1), x.few(3, 0), x.few(3, 1), x.few(3, 2));
         // Ties count, and the text of prices.
         x = withBooks(2060, 4030, 2030);
         x.set(1, 0);

@@ -185,6 +185,7 @@ public final class TextsTest {
         Due.row(Due.of(FULL, 0, 14), Due.text(x, "grow 1"), x.count(8), x.count(2));
         Due.row(Due.of(-105, 0, 14), Due.text(x, "grow h"), x.count(8), x.count(2));
         Due.row(Due.of(12, 13, NONE), x.why(0), x.why(1), x.why(2));
+        Due.row(Due.of(1, BAD, BAD), x.textTold(13, 0), x.textTold(14, 0), x.textTold(15, 1));
     }
 
     /** What a text of cost gives for one book of a height 20 with a plank of 2. */
