@@ -2,6 +2,8 @@
 final class Due {
     private static int wrong = 0;
     private static int asked = 0;
+    /** The sentence of the document that is tested now, where a test names one. */
+    private static String sentence = "";
 
     static final int BAD = -1000000001, NO = -1000000002, FULL = -1000000003, NONE = -1000000005,
             NOTHING = -1000000011, KIND = -1000000012, INDEX = -1000000013, SIZE = -1000000014;
@@ -9,20 +11,27 @@ final class Due {
     private Due() {
     }
 
+    static void by(String itsSentence) {
+        sentence = itsSentence;
+    }
+
     static void is(int want, int got) {
         asked++;
         if (want != got) {
-            wrong++;
-            System.out.println(place() + ": answered " + got + ", due is " + want);
+            tellWrong("answered " + got + ", due is " + want);
         }
     }
 
     static void isTrue(boolean holds, String what) {
         asked++;
         if (!holds) {
-            wrong++;
-            System.out.println(place() + ": " + what);
+            tellWrong(what);
         }
+    }
+
+    private static void tellWrong(String what) {
+        wrong++;
+        System.out.println(place() + ": " + what + (sentence.isEmpty() ? "" : "\n    by " + sentence));
     }
 
     /** The same answer is due from each call. */
@@ -30,8 +39,7 @@ final class Due {
         for (int i = 0; i < got.length; i++) {
             asked++;
             if (got[i] != want) {
-                wrong++;
-                System.out.println(place() + ": answer " + i + " is " + got[i] + ", due is " + want);
+                tellWrong("answer " + i + " is " + got[i] + ", due is " + want);
             }
         }
     }
@@ -42,8 +50,7 @@ final class Due {
         for (int i = 0; i < Math.min(want.length, got.length); i++) {
             asked++;
             if (got[i] != want[i]) {
-                wrong++;
-                System.out.println(place() + ": answer " + i + " is " + got[i] + ", due is " + want[i]);
+                tellWrong("answer " + i + " is " + got[i] + ", due is " + want[i]);
             }
         }
     }
@@ -51,7 +58,6 @@ final class Due {
     static int[] of(int... values) {
         return values;
     }
-
 
     /** Puts bytes on the tape: feeds them with blanks behind them and trims those off. */
     static void tape(BookBoards x, int[] bytes) {
@@ -92,7 +98,7 @@ final class Due {
 
     private static String place() {
         return StackWalker.getInstance().walk(frames -> frames
-                .filter(f -> !f.getClassName().equals("Due"))
+                .filter(f -> !f.getClassName().equals("Due") && !f.getClassName().equals("Twins"))
                 .map(f -> f.getFileName() + ":" + f.getLineNumber())
                 .findFirst().orElse("?"));
     }
