@@ -1097,7 +1097,9 @@ public final class BookBoards {
             cost = stock.lawOf(COST);
             heightsMany = stock.allowedMany;
             System.arraycopy(stock.allowed, 0, heights, 0, MOST_ALLOWED);
-            Arrays.fill(price, -1);
+            if (cost != null) {
+                Arrays.fill(price, -1);
+            }
             return this;
         }
 

@@ -8,6 +8,8 @@ public final class ModelTest {
         8, 9, 10, 24, 25, 60, 61, 99, 100, 101, 999, 1000, 9999, 10000, 32767, 32768, 65536, 99999, 100000, -99999,
         -100000, Due.NONE};
 
+    private static final int AT_THE_BOUNDS = 8;
+
     private final Random dice;
     private final BookBoards x = new BookBoards();
     private final SlowBoards slow = new SlowBoards();
@@ -15,7 +17,7 @@ public final class ModelTest {
     /** How many books a run takes to, which keeps the slow ways short in most runs. */
     private final int books;
     private final boolean isWide;
-    /** What a run does most. */
+    /** What a run does most; with one of these moods, numbers are often the first or last right ones, or beside them. */
     private final int mood;
 
     private ModelTest(long seed) {
@@ -84,6 +86,9 @@ public final class ModelTest {
 
     /** A number near what is right, mostly; now and then an odd one. */
     private int near(int least, int most) {
+        if (mood == AT_THE_BOUNDS && dice.nextBoolean()) {
+            return new int[] {least - 1, least, most, most + 1}[dice.nextInt(4)];
+        }
         int of = dice.nextInt(24);
         if (of == 0) {
             return ODD[dice.nextInt(ODD.length)];
