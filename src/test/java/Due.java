@@ -59,6 +59,29 @@ final class Due {
         return values;
     }
 
+    /** An object with books of these sizes, all of part 0. */
+    static BookBoards withBooks(int... sizes) {
+        BookBoards x = new BookBoards();
+        for (int size : sizes) {
+            x.book(size, 0);
+        }
+        return x;
+    }
+
+    /** Makes a sheet a row of these numbers. */
+    static void fill(BookBoards x, int sheet, int sort, int... values) {
+        x.sheet(sheet, sort, values.length);
+        for (int i = 0; i < values.length; i++) {
+            x.mark(sheet, i, values[i]);
+        }
+    }
+
+    /** What stands at a place of a sheet, by way of slot 4. */
+    static int at(BookBoards x, int sheet, int place) {
+        int laid = x.lay(4, 2, sheet);
+        return laid < 0 ? laid : x.item(4, place);
+    }
+
     /** Puts bytes on the tape: feeds them with blanks behind them and trims those off. */
     static void tape(BookBoards x, int[] bytes) {
         int before = x.count(8);

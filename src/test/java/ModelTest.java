@@ -17,7 +17,7 @@ public final class ModelTest {
     /** How many books a run takes to, which keeps the slow ways short in most runs. */
     private final int books;
     private final boolean isWide;
-    /** What a run does most; with one of these moods, numbers are often the first or last right ones, or beside them. */
+    /** What a run does most; in one mood, numbers are often the first or the last right ones, or beside them. */
     private final int mood;
 
     private ModelTest(long seed) {

@@ -69,7 +69,8 @@ final class SentencesBoards {
     }
 
     private static void told() {
-        Doc.says("Promise 9", "Of a BOARD: what 0 KIND, 1 the first BOOK, 2 the last, 3 h, 4 WANTS, 5 TAKES, 6 WORTH, 7 "
+        Doc.says("Promise 9",
+                "Of a BOARD: what 0 KIND, 1 the first BOOK, 2 the last, 3 h, 4 WANTS, 5 TAKES, 6 WORTH, 7 "
                 + "whether GOOD (1, 0).");
         BookBoards x = new BookBoards();
         x.book(2030, 0);

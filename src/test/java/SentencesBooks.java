@@ -33,7 +33,8 @@ final class SentencesBooks {
     }
 
     private static void whatItIs() {
-        Doc.saysBeside("Head", "Shelves at all heights: books that stand in order, by what they are about and not by how "
+        Doc.saysBeside("Head",
+                "Shelves at all heights: books that stand in order, by what they are about and not by how "
                 + "tall, tied to the next one or not; boards of kinds under one another, run, deep, apart, lying, told; "
                 + "the least height of boards for all of them, exactly, by any heights or by few told ones; fewest "
                 + "cases, which tall books to let stand apart, what a wall takes that is there, what one inch more is "
@@ -42,7 +43,8 @@ final class SentencesBooks {
     }
 
     private static void calls512() {
-        Doc.says("Head", "An object is used for at most 512 calls after it has been made; what later calls answer is free.");
+        Doc.says("Head",
+                "An object is used for at most 512 calls after it has been made; what later calls answer is free.");
         BookBoards x = new BookBoards();
         for (int i = 0; i < 511; i++) {
             Due.is(i == 0 ? 1 : i - 1, x.seed(i));

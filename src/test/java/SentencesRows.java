@@ -75,7 +75,8 @@ final class SentencesRows {
     }
 
     private static void checkElse() {
-        Doc.says("Promise 41", "else 1 and how many stand right ahead of the first that is not (or is missing, or one too "
+        Doc.says("Promise 41",
+                "else 1 and how many stand right ahead of the first that is not (or is missing, or one too "
                 + "many).");
         // Missing: none, one, all but one; too many by one, and by more.
         BookBoards x = kept();
@@ -187,7 +188,8 @@ final class SentencesRows {
     }
 
     private static void count() {
-        Doc.says("Promise 44", "How many: 0 BOOKS, 1 BOARDS, 2 TEXTS, 3 ALLOWED heights, 4 THICKNESS of all BOOKS, 5 BOOKS "
+        Doc.says("Promise 44",
+                "How many: 0 BOOKS, 1 BOARDS, 2 TEXTS, 3 ALLOWED heights, 4 THICKNESS of all BOOKS, 5 BOOKS "
                 + "that are TIED, 6 unlike HEIGHTS of BOOKS, 7 numbers that wait, 8 bytes of THE TAPE, 9 z.");
         BookBoards x = Twins.made(Twins.State.SOME);
         Due.row(Due.of(5, 2, 3, 2, 72, 1, 4, 3, 12, 78), x.count(0), x.count(1), x.count(2), x.count(3), x.count(4),

@@ -36,7 +36,7 @@ final class SentencesSetting {
 
     private static void setting() {
         Doc.says("Promise 14", "THE SETTING: what -2 PRICES together, -1 how many LINES, i the first BOOK of LINE i.");
-        BookBoards x = SentencesTerms2.withBooks(2030, 3030, 4030, 5030, 6030);
+        BookBoards x = Due.withBooks(2030, 3030, 4030, 5030, 6030);
         Due.row(Due.of(32 + 62, 2, 0, 2), x.setting(-2), x.setting(-1), x.setting(0), x.setting(1));
         BookBoards y = lines24();
         Due.row(Due.of(24 * 12 + 276, 24, 0, 1, 22, 23), y.setting(-2), y.setting(-1), y.setting(0), y.setting(1),
@@ -69,7 +69,7 @@ final class SentencesSetting {
 
     private static void line() {
         Doc.says("Promise 15", "Of a LINE (from 0 on): what 0 how many BOOKS, 1 THICKNESS, 2 TALL, 3 SET, 4 PRICE.");
-        BookBoards x = SentencesTerms2.withBooks(2040, 3030, 2530, 2040);
+        BookBoards x = Due.withBooks(2040, 3030, 2530, 2040);
         x.set(0, 70);
         x.set(1, 5);
         x.allow(26);
@@ -108,10 +108,10 @@ final class SentencesSetting {
         BookBoards x = new BookBoards();
         Due.row(Due.of(1, 2, 3, 4, 5, 6, 6), x.allow(1), x.allow(99), x.allow(50), x.allow(2), x.allow(98), x.allow(51),
                 x.count(3));
-        BookBoards y = SentencesTerms2.withBooks(9910);
+        BookBoards y = Due.withBooks(9910);
         y.allow(99);
         Due.is(99, y.line(0, 3));
-        BookBoards w = SentencesTerms2.withBooks(110);
+        BookBoards w = Due.withBooks(110);
         w.allow(1);
         Due.is(1, w.line(0, 3));
     }
@@ -135,7 +135,7 @@ final class SentencesSetting {
 
     private static void clear() {
         Doc.says("Promise 17", "No height is ALLOWED any more (so any is): how many were.");
-        BookBoards x = SentencesTerms2.withBooks(3010, 9910);
+        BookBoards x = Due.withBooks(3010, 9910);
         Due.row(Due.of(0, 0), x.clear(), x.count(3));
         x.allow(40);
         Due.row(Due.of(NONE, 1, 0, 101), x.setting(-2), x.clear(), x.count(3), x.setting(-2));
@@ -146,7 +146,7 @@ final class SentencesSetting {
     private static void cases() {
         Doc.says("Promise 18", "CASES: what 0 how many, 1 the height that is used in the last one (0 without).");
         Due.row(Due.of(0, 0), new BookBoards().cases(0), new BookBoards().cases(1));
-        BookBoards x = SentencesTerms2.withBooks(3060, 2060, 2560);
+        BookBoards x = Due.withBooks(3060, 2060, 2560);
         Due.row(Due.of(1, 32 + 22 + 27), x.cases(0), x.cases(1));
         x.set(2, 54);
         Due.row(Due.of(2, 27), x.cases(0), x.cases(1));
@@ -168,7 +168,7 @@ final class SentencesSetting {
         }
         Twins.same(NONE, Twins.State.TIGHT, x -> x.cases(0), x -> x.cases(1));
         // A line that is too high, ties that are too thick, no allowed height.
-        BookBoards x = SentencesTerms2.withBooks(3060, 2060);
+        BookBoards x = Due.withBooks(3060, 2060);
         x.set(2, 32);
         Due.row(Due.of(2, 22), x.cases(0), x.cases(1));
         x.set(2, 31);
@@ -184,13 +184,13 @@ final class SentencesSetting {
 
     private static void few() {
         Doc.says("Promise 19", "FEW by k (1 .. 3): what -1 PRICES together, 0 .. 2 the heights, rising.");
-        BookBoards x = SentencesTerms2.withBooks(4060, 2060, 3060, 2060);
+        BookBoards x = Due.withBooks(4060, 2060, 3060, 2060);
         Due.row(Due.of(4 * 42, 40), x.few(1, -1), x.few(1, 0));
         // Two of 20 and two of 40, or 30 for three of them.
         Due.row(Due.of(128, 20, 40), x.few(2, -1), x.few(2, 0), x.few(2, 1));
         Due.row(Due.of(118, 20, 30, 40), x.few(3, -1), x.few(3, 0), x.few(3, 1), x.few(3, 2));
         // The least and the greatest heights.
-        BookBoards y = SentencesTerms2.withBooks(9960, 160);
+        BookBoards y = Due.withBooks(9960, 160);
         Due.row(Due.of(104, 1, 99), y.few(2, -1), y.few(2, 0), y.few(2, 1));
         // Prices of 0 are prices.
         Due.text(y, "cost 0");
@@ -217,7 +217,7 @@ final class SentencesSetting {
                 Twins.same(NONE, Twins.State.TIGHT, x -> x.few(of, told));
             }
         }
-        BookBoards x = SentencesTerms2.withBooks(2060, 2060);
+        BookBoards x = Due.withBooks(2060, 2060);
         Due.row(Due.of(44, NONE, NONE, NONE, NONE), x.few(1, -1), x.few(2, -1), x.few(2, 0), x.few(2, 1), x.few(3, -1));
         x.book(3060, 0);
         Due.row(Due.of(76, NONE, NONE), x.few(2, -1), x.few(3, -1), x.few(3, 2));
@@ -233,7 +233,7 @@ final class SentencesSetting {
 
     private static void apart() {
         Doc.says("Promise 20", "APART from t.");
-        BookBoards x = SentencesTerms2.withBooks(2060, 3060, 2040);
+        BookBoards x = Due.withBooks(2060, 3060, 2040);
         // Together 22 + 32 (60 + 40); apart 32 and 22 (60 + 40), and 5.
         Due.row(Due.of(54, 54, 59, 59, 69, 69), x.apart(100), x.apart(31), x.apart(30), x.apart(21), x.apart(20),
                 x.apart(1));
@@ -249,7 +249,7 @@ final class SentencesSetting {
         }
         Twins.same(NONE, Twins.State.TIGHT, x -> x.apart(1), x -> x.apart(20), x -> x.apart(30), x -> x.apart(100));
         // The others alone have none, the tall ones alone have none.
-        BookBoards x = SentencesTerms2.withBooks(2060, 3050);
+        BookBoards x = Due.withBooks(2060, 3050);
         x.set(0, 59);
         Due.row(Due.of(NONE, NONE, NONE), x.apart(30), x.apart(1), x.apart(100));
         x.set(0, 60);
@@ -263,7 +263,7 @@ final class SentencesSetting {
         Doc.says("Promise 21", "THE EDGE. NONE.");
         Twins.same(100, Twins.State.BARE, x -> x.edge());
         Twins.same(NONE, Twins.State.TIGHT, x -> x.edge());
-        BookBoards x = SentencesTerms2.withBooks(2060, 3050, 2040, 3050);
+        BookBoards x = Due.withBooks(2060, 3050, 2040, 3050);
         Due.row(Due.of(86, 64, 30), x.apart(100), x.apart(30), x.edge());
         // Against every t, for books that are drawn.
         for (int seed = 1; seed <= 8; seed++) {

@@ -31,31 +31,24 @@ final class SentencesSheets {
         restRefused();
     }
 
-    private static int at(BookBoards x, int sheet, int place) {
-        return SentencesTerms5.at(x, sheet, place);
-    }
-
-    private static void fill(BookBoards x, int sheet, int sort, int... values) {
-        SentencesTerms5.fill(x, sheet, sort, values);
-    }
-
     private static void sheet() {
         Doc.says("Promise 32", "A SHEET becomes a row of n places of a sort, all 0");
         BookBoards x = new BookBoards();
         Due.row(Due.of(0, 1, 23, 24), x.sheet(0, 0, 0), x.sheet(1, 0, 1), x.sheet(2, 1, 23), x.sheet(3, 1, 24));
-        Due.row(Due.of(INDEX, 0, INDEX, 0, INDEX, 0, INDEX), at(x, 0, 0), at(x, 1, 0), at(x, 1, 1), at(x, 2, 22),
-                at(x, 2, 23), at(x, 3, 23), at(x, 3, 24));
+        Due.row(Due.of(INDEX, 0, INDEX, 0, INDEX, 0, INDEX), Due.at(x, 0, 0), Due.at(x, 1, 0), Due.at(x, 1, 1),
+                Due.at(x, 2, 22),
+                Due.at(x, 2, 23), Due.at(x, 3, 23), Due.at(x, 3, 24));
         // All 0 once more, where numbers stood: of the same sort, of the other sort, shorter and longer.
         for (int place = 0; place < 24; place++) {
             x.mark(3, place, place == 7 ? NONE : 1000 + place);
         }
         x.sheet(3, 1, 2);
-        Due.row(Due.of(0, 0, INDEX), at(x, 3, 0), at(x, 3, 1), at(x, 3, 2));
+        Due.row(Due.of(0, 0, INDEX), Due.at(x, 3, 0), Due.at(x, 3, 1), Due.at(x, 3, 2));
         x.sheet(3, 0, 24);
         for (int place = 0; place < 24; place++) {
-            Due.is(0, at(x, 3, place));
+            Due.is(0, Due.at(x, 3, place));
         }
-        Due.row(Due.of(KIND, 1, -1), x.mark(3, 0, NONE), x.mark(3, 0, 65535), at(x, 3, 0));
+        Due.row(Due.of(KIND, 1, -1), x.mark(3, 0, NONE), x.mark(3, 0, 65535), Due.at(x, 3, 0));
     }
 
     private static void sheetMissing() {
@@ -67,7 +60,7 @@ final class SentencesSheets {
             Due.is(0, x.sheet(0, -1, n));
         }
         x.sheet(0, 1, 1);
-        Due.row(Due.of(0, INDEX), at(x, 0, 0), at(x, 0, 1));
+        Due.row(Due.of(0, INDEX), Due.at(x, 0, 0), Due.at(x, 0, 1));
     }
 
     private static void sheetRefused() {
@@ -87,12 +80,13 @@ final class SentencesSheets {
         Doc.says("Promise 33", "A place of a SHEET becomes v (of shorts its lowest 16 bits;");
         BookBoards x = new BookBoards();
         x.sheet(0, 0, 1);
-        int[] marked = {0, 1, -1, 32767, 32768, -32768, -32769, 65535, 65536, 65537, 99999, 100000, LEAST, GREATEST, BAD,
+        int[] marked = {0, 1, -1, 32767, 32768, -32768, -32769, 65535, 65536, 65537, 99999, 100000, LEAST, GREATEST,
+                BAD,
             0x12345678, 0x1234F678};
         int[] due = {0, 1, -1, 32767, -32768, -32768, 32767, -1, 0, 1, 99999 - 131072, 100000 - 131072, 0, -1,
             13823, 0x5678, 0xF678 - 65536};
         for (int i = 0; i < marked.length; i++) {
-            Due.row(Due.of(1, due[i]), x.mark(0, 0, marked[i]), at(x, 0, 0));
+            Due.row(Due.of(1, due[i]), x.mark(0, 0, marked[i]), Due.at(x, 0, 0));
         }
     }
 
@@ -101,10 +95,10 @@ final class SentencesSheets {
         BookBoards x = new BookBoards();
         x.sheet(0, 1, 24);
         for (int v : new int[] {0, 1, -1, 99998, 99999, -99998, -99999, 32768, 65536}) {
-            Due.row(Due.of(1, v), x.mark(0, 23, v), at(x, 0, 23));
+            Due.row(Due.of(1, v), x.mark(0, 23, v), Due.at(x, 0, 23));
         }
-        Due.row(Due.of(1, KIND, 1, 7), x.mark(0, 23, NONE), at(x, 0, 23), x.mark(0, 23, 7), at(x, 0, 23));
-        Due.row(Due.of(0, 0), at(x, 0, 0), at(x, 0, 22));
+        Due.row(Due.of(1, KIND, 1, 7), x.mark(0, 23, NONE), Due.at(x, 0, 23), x.mark(0, 23, 7), Due.at(x, 0, 23));
+        Due.row(Due.of(0, 0), Due.at(x, 0, 0), Due.at(x, 0, 22));
     }
 
     private static void markRefused() {
@@ -125,8 +119,8 @@ final class SentencesSheets {
     private static void pour() {
         Doc.says("Promise 34", "BOOKS of a PART come from a SHEET, place by place from 0 on (size as of book()),");
         BookBoards x = new BookBoards();
-        fill(x, 0, 0, 101, 9999, 199, 9901);
-        fill(x, 1, 1, 2599, 2501);
+        Due.fill(x, 0, 0, 101, 9999, 199, 9901);
+        Due.fill(x, 1, 1, 2599, 2501);
         Due.row(Due.of(4, 2, 6), x.pour(0, 0), x.pour(1, 7), x.count(0));
         int[][] due = {{1, 1, 0}, {99, 99, 0}, {1, 99, 0}, {99, 1, 0}, {25, 99, 7}, {25, 1, 7}};
         for (int i = 0; i < 6; i++) {
@@ -134,14 +128,14 @@ final class SentencesSheets {
                     x.bookTold(i, 3));
         }
         // The sheet stays as it is.
-        Due.row(Due.of(101, 9901, 2501), at(x, 0, 0), at(x, 0, 3), at(x, 1, 1));
+        Due.row(Due.of(101, 9901, 2501), Due.at(x, 0, 0), Due.at(x, 0, 3), Due.at(x, 1, 1));
         // No place, no book; 24 places, 24 books.
         x.sheet(2, 0, 0);
         Due.row(Due.of(0, 6), x.pour(2, 0), x.count(0));
         BookBoards y = new BookBoards();
         int[] all = new int[24];
         java.util.Arrays.fill(all, 2010);
-        fill(y, 3, 1, all);
+        Due.fill(y, 3, 1, all);
         Due.row(Due.of(24, 24), y.pour(3, 0), y.count(0));
     }
 
@@ -150,16 +144,16 @@ final class SentencesSheets {
         int[] none = {0, 1, 99, 100, 200, 9900, 10000, 10001, -1, -101, -2010, 32767, -32768};
         for (int v : none) {
             BookBoards x = new BookBoards();
-            fill(x, 0, 0, 2010, v, 2020);
-            fill(x, 1, 1, 2010, 2020, v, 2030);
-            fill(x, 2, 0, v, 2020);
+            Due.fill(x, 0, 0, 2010, v, 2020);
+            Due.fill(x, 1, 1, 2010, 2020, v, 2030);
+            Due.fill(x, 2, 0, v, 2020);
             Due.row(Due.of(1, 2, 0, 3), x.pour(0, 0), x.pour(1, 0), x.pour(2, 0), x.count(0));
         }
         BookBoards x = new BookBoards();
-        fill(x, 0, 1, NONE, 2010);
-        fill(x, 1, 1, 2010, NONE, 2010);
-        fill(x, 2, 1, 2010, 99999, 2010);
-        fill(x, 3, 1, 2010, 2010, -99999);
+        Due.fill(x, 0, 1, NONE, 2010);
+        Due.fill(x, 1, 1, 2010, NONE, 2010);
+        Due.fill(x, 2, 1, 2010, 99999, 2010);
+        Due.fill(x, 3, 1, 2010, 2010, -99999);
         Due.row(Due.of(0, 1, 1, 2, 4), x.pour(0, 0), x.pour(1, 0), x.pour(2, 0), x.pour(3, 0), x.count(0));
     }
 
@@ -176,7 +170,7 @@ final class SentencesSheets {
         // Room for one less, and for just as many; what stands behind the last size needs no room.
         BookBoards x = new BookBoards();
         x.deal(22);
-        fill(x, 0, 0, 2010, 2011, 2012);
+        Due.fill(x, 0, 0, 2010, 2011, 2012);
         Due.row(Due.of(FULL, 22), x.pour(0, 1), x.count(0));
         x.mark(0, 2, 0);
         Due.row(Due.of(2, 24, 11), x.pour(0, 1), x.count(0), x.bookTold(23, 1));
@@ -189,22 +183,26 @@ final class SentencesSheets {
         Doc.says("Promise 35", "So many places of a SHEET come to another one (or the same), as they were: many.");
         Doc.says("Promise 35", "(From a SHEET, its place, to a SHEET, its place.)");
         BookBoards x = new BookBoards();
-        fill(x, 0, 0, 1, 2, 3, 4, 5);
-        fill(x, 1, 0, 11, 12, 13);
-        Due.row(Due.of(2, 11, 4, 5), x.copy(0, 3, 1, 1, 2), at(x, 1, 0), at(x, 1, 1), at(x, 1, 2));
-        Due.row(Due.of(1, 2, 3, 4, 5), at(x, 0, 0), at(x, 0, 1), at(x, 0, 2), at(x, 0, 3), at(x, 0, 4));
+        Due.fill(x, 0, 0, 1, 2, 3, 4, 5);
+        Due.fill(x, 1, 0, 11, 12, 13);
+        Due.row(Due.of(2, 11, 4, 5), x.copy(0, 3, 1, 1, 2), Due.at(x, 1, 0), Due.at(x, 1, 1), Due.at(x, 1, 2));
+        Due.row(Due.of(1, 2, 3, 4, 5), Due.at(x, 0, 0), Due.at(x, 0, 1), Due.at(x, 0, 2), Due.at(x, 0, 3), Due.at(x, 0,
+                4));
         // All of it, and none of it.
-        Due.row(Due.of(3, 11, 4, 5, 4), x.copy(1, 0, 0, 0, 3), at(x, 0, 0), at(x, 0, 1), at(x, 0, 2), at(x, 0, 3));
+        Due.row(Due.of(3, 11, 4, 5, 4), x.copy(1, 0, 0, 0, 3), Due.at(x, 0, 0), Due.at(x, 0, 1), Due.at(x, 0, 2),
+        Due.at(x, 0, 3));
         Due.row(Due.of(0, 0, 0, 0), x.copy(0, 0, 1, 0, 0), x.copy(0, 5, 1, 3, 0), x.copy(0, 5, 0, 5, 0),
                 x.copy(1, 3, 0, 0, 0));
-        Due.row(Due.of(11, 4, 5, 4, 5, 11, 4, 5), at(x, 0, 0), at(x, 0, 1), at(x, 0, 2), at(x, 0, 3), at(x, 0, 4),
-                at(x, 1, 0), at(x, 1, 1), at(x, 1, 2));
+        Due.row(Due.of(11, 4, 5, 4, 5, 11, 4, 5), Due.at(x, 0, 0), Due.at(x, 0, 1), Due.at(x, 0, 2), Due.at(x, 0, 3),
+                Due.at(x, 0, 4),
+                Due.at(x, 1, 0), Due.at(x, 1, 1), Due.at(x, 1, 2));
         // Floats, one of them no number; rows of 24 places; a row without places.
         x.sheet(2, 1, 24);
         x.mark(2, 0, NONE);
         x.mark(2, 23, -99999);
         x.sheet(3, 1, 24);
-        Due.row(Due.of(24, KIND, 0, -99999), x.copy(2, 0, 3, 0, 24), at(x, 3, 0), at(x, 3, 1), at(x, 3, 23));
+        Due.row(Due.of(24, KIND, 0, -99999), x.copy(2, 0, 3, 0, 24), Due.at(x, 3, 0), Due.at(x, 3, 1), Due.at(x, 3,
+                23));
         x.sheet(1, 0, 0);
         Due.row(Due.of(0, 0, 0), x.copy(1, 0, 1, 0, 0), x.copy(0, 0, 1, 0, 0), x.copy(1, 0, 0, 5, 0));
     }
@@ -212,13 +210,15 @@ final class SentencesSheets {
     private static void copyWithin() {
         Doc.says("Promise 35", "(or the same), as they were: many.");
         BookBoards x = new BookBoards();
-        fill(x, 0, 0, 1, 2, 3, 4, 5);
-        Due.row(Due.of(4, 1, 1, 2, 3, 4), x.copy(0, 0, 0, 1, 4), at(x, 0, 0), at(x, 0, 1), at(x, 0, 2), at(x, 0, 3),
-                at(x, 0, 4));
-        fill(x, 0, 0, 1, 2, 3, 4, 5);
-        Due.row(Due.of(4, 2, 3, 4, 5, 5), x.copy(0, 1, 0, 0, 4), at(x, 0, 0), at(x, 0, 1), at(x, 0, 2), at(x, 0, 3),
-                at(x, 0, 4));
-        Due.row(Due.of(5, 2, 5), x.copy(0, 0, 0, 0, 5), at(x, 0, 0), at(x, 0, 4));
+        Due.fill(x, 0, 0, 1, 2, 3, 4, 5);
+        Due.row(Due.of(4, 1, 1, 2, 3, 4), x.copy(0, 0, 0, 1, 4), Due.at(x, 0, 0), Due.at(x, 0, 1), Due.at(x, 0, 2),
+                Due.at(x, 0, 3),
+                Due.at(x, 0, 4));
+        Due.fill(x, 0, 0, 1, 2, 3, 4, 5);
+        Due.row(Due.of(4, 2, 3, 4, 5, 5), x.copy(0, 1, 0, 0, 4), Due.at(x, 0, 0), Due.at(x, 0, 1), Due.at(x, 0, 2),
+                Due.at(x, 0, 3),
+                Due.at(x, 0, 4));
+        Due.row(Due.of(5, 2, 5), x.copy(0, 0, 0, 0, 5), Due.at(x, 0, 0), Due.at(x, 0, 4));
     }
 
     private static void copyRefused() {
@@ -253,7 +253,8 @@ final class SentencesSheets {
     }
 
     private static void lay() {
-        Doc.says("Promise 36", "A SLOT holds: thing 0 nothing, 1 BOARD k, 2 SHEET k, 3 the number k: what it held (0 .. 3).");
+        Doc.says("Promise 36",
+                "A SLOT holds: thing 0 nothing, 1 BOARD k, 2 SHEET k, 3 the number k: what it held (0 .. 3).");
         BookBoards x = Twins.made(Twins.State.FULL);
         // From each thing to each.
         for (int from = 0; from <= 3; from++) {
@@ -330,7 +331,7 @@ final class SentencesSheets {
         x.mark(0, 23, 32767);
         x.lay(0, 2, 0);
         Due.row(Due.of(-32768, 0, 0, 32767), x.item(0, 0), x.item(0, 1), x.item(0, 22), x.item(0, 23));
-        fill(x, 1, 1, -99999, 99999);
+        Due.fill(x, 1, 1, -99999, 99999);
         x.lay(4, 2, 1);
         Due.row(Due.of(-99999, 99999), x.item(4, 0), x.item(4, 1));
     }

@@ -2,7 +2,7 @@
 final class SentencesTerms1 {
     private static final int BAD = Due.BAD, NO = Due.NO, FULL = Due.FULL, NONE = Due.NONE, NOTHING = Due.NOTHING,
             KIND = Due.KIND, INDEX = Due.INDEX, SIZE = Due.SIZE;
-    private static final int LEAST = Integer.MIN_VALUE, GREATEST = Integer.MAX_VALUE;
+    private static final int LEAST = Integer.MIN_VALUE;
 
     private SentencesTerms1() {
     }

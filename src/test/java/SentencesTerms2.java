@@ -26,14 +26,6 @@ final class SentencesTerms2 {
         edgeOfSeveral();
     }
 
-    static BookBoards withBooks(int... sizes) {
-        BookBoards x = new BookBoards();
-        for (int size : sizes) {
-            x.book(size, 0);
-        }
-        return x;
-    }
-
     /** How many books each line has, from the first on. */
     private static int[] lengths(BookBoards x) {
         int[] row = new int[Math.max(0, x.setting(-1))];
@@ -46,7 +38,7 @@ final class SentencesTerms2 {
     private static void linesByWidth() {
         Doc.says("Terms 2", "THE SETTING: all BOOKS in their order are parted into LINES of one BOOK or more, the "
                 + "THICKNESS of each together no more than WIDTH,");
-        BookBoards x = withBooks(2050, 2050);
+        BookBoards x = Due.withBooks(2050, 2050);
         Due.row(Due.of(2), lengths(x));
         x.set(0, 99);
         Due.row(Due.of(1, 1), lengths(x));
@@ -55,7 +47,7 @@ final class SentencesTerms2 {
         x.set(0, 49);
         Due.all(NONE, x.setting(-1), x.setting(-2), x.setting(0));
         // The least and the greatest width and thickness.
-        x = withBooks(2001);
+        x = Due.withBooks(2001);
         x.set(0, 1);
         Due.row(Due.of(1), lengths(x));
         x.book(2002, 0);
@@ -89,7 +81,7 @@ final class SentencesTerms2 {
 
     private static void linesByTies() {
         Doc.says("Terms 2", "no two TIED ones parted.");
-        BookBoards x = withBooks(2050, 2030, 2020, 2050);
+        BookBoards x = Due.withBooks(2050, 2030, 2020, 2050);
         Due.row(Due.of(3, 1), lengths(x));
         x.tie(2, true);
         Due.row(Due.of(2, 2), lengths(x));
@@ -112,7 +104,7 @@ final class SentencesTerms2 {
 
     private static void tall() {
         Doc.says("Terms 2", "TALL is the greatest HEIGHT of a LINE.");
-        BookBoards x = withBooks(9930, 130, 9830, 5030, 5130, 5030);
+        BookBoards x = Due.withBooks(9930, 130, 9830, 5030, 5130, 5030);
         Due.row(Due.of(3, 3), lengths(x));
         Due.row(Due.of(99, 51), x.line(0, 2), x.line(1, 2));
         x.set(0, 30);
@@ -123,7 +115,7 @@ final class SentencesTerms2 {
     private static void allowed() {
         Doc.says("Terms 2", "Up to 6 ALLOWED heights are told: SET of a LINE is the least ALLOWED one that is TALL, or "
                 + "more (without one it can't be); if none are told: TALL.");
-        BookBoards x = withBooks(3010);
+        BookBoards x = Due.withBooks(3010);
         Due.is(30, x.line(0, 3));
         x.allow(29);
         Due.all(NONE, x.line(0, 3), x.setting(-1), x.setting(-2), x.cases(0));
@@ -138,7 +130,7 @@ final class SentencesTerms2 {
         Due.row(Due.of(6, FULL, NO, 6), x.allow(1), x.allow(32), x.allow(1), x.count(3));
         Due.row(Due.of(30, 32), x.line(0, 3), x.setting(-2));
         // All six count, in whatever order they were told.
-        x = withBooks(1060, 2060, 3060, 4060, 5060, 9960);
+        x = Due.withBooks(1060, 2060, 3060, 4060, 5060, 9960);
         for (int height : new int[] {99, 12, 50, 45, 21, 30}) {
             x.allow(height);
         }
@@ -152,7 +144,7 @@ final class SentencesTerms2 {
     }
 
     private static int priceBy(String e) {
-        BookBoards x = withBooks(2010);
+        BookBoards x = Due.withBooks(2010);
         Due.is(0, Due.text(x, "cost " + e));
         Due.is(x.line(0, 4), x.setting(-2));
         return x.line(0, 4);
@@ -165,7 +157,7 @@ final class SentencesTerms2 {
         // Ints that wrap: 99980001 times 22 is over the greatest int, and so below 0.
         Due.row(Due.of(9999, 0, 0, 9999), priceBy("9999*9999*21"), priceBy("9999*9999*22"),
                 priceBy("4096*4096*128"), priceBy("4096*4096*128-1"));
-        BookBoards x = withBooks(101);
+        BookBoards x = Due.withBooks(101);
         x.set(1, 0);
         Due.row(Due.of(1, 1), x.line(0, 4), x.setting(-2));
         x.allow(99);
@@ -183,13 +175,13 @@ final class SentencesTerms2 {
     private static void leastPrices() {
         Doc.says("Terms 2", "THE SETTING is that of the least PRICES together;");
         // As long a line as can be is not the least: 20 with 90, or 90 with 90.
-        BookBoards x = withBooks(2040, 9040, 9060);
+        BookBoards x = Due.withBooks(2040, 9040, 9060);
         Due.row(Due.of(1, 2), lengths(x));
         Due.is(22 + 92, x.setting(-2));
-        x = withBooks(9060, 9040, 2040);
+        x = Due.withBooks(9060, 9040, 2040);
         Due.row(Due.of(2, 1), lengths(x));
         // More lines than the fewest, if they cost less.
-        x = withBooks(2010, 9010, 2010);
+        x = Due.withBooks(2010, 9010, 2010);
         Due.row(Due.of(3), lengths(x));
         Due.text(x, "cost h*n");
         Due.row(Due.of(1, 1, 1), lengths(x));
@@ -197,7 +189,7 @@ final class SentencesTerms2 {
         Due.text(x, "cost (h+1)*n*n");
         Due.row(Due.of(1, 1, 1), lengths(x));
         // The least by 1.
-        x = withBooks(2010, 2110, 2010);
+        x = Due.withBooks(2010, 2110, 2010);
         Due.text(x, "cost h+(n=3)*21");
         Due.row(Due.of(2, 1), lengths(x));
         Due.is(41, x.setting(-2));
@@ -208,7 +200,7 @@ final class SentencesTerms2 {
 
     private static void ofSeveral() {
         Doc.says("Terms 2", "of several that whose first LINE has most BOOKS, then the next likewise, and so on.");
-        BookBoards x = withBooks(2040, 2040, 2040, 2040, 2040);
+        BookBoards x = Due.withBooks(2040, 2040, 2040, 2040, 2040);
         Due.text(x, "cost 0");
         Due.row(Due.of(2, 2, 1), lengths(x));
         x.set(0, 120);
@@ -226,10 +218,10 @@ final class SentencesTerms2 {
         Due.text(x, "cost n=2|n>3");
         Due.row(Due.of(3, 1, 1), lengths(x));
         // The next lines count where the first ones are alike: 1, 3, 2 ahead of 1, 2, 3 and of 1, 1, 4.
-        x = withBooks(2060, 2060, 2020, 2020, 2020, 2020);
+        x = Due.withBooks(2060, 2060, 2020, 2020, 2020, 2020);
         Due.row(Due.of(1, 3, 2), lengths(x));
         // More lines ahead of fewer ones, where the prices are alike.
-        x = withBooks(2010, 2110, 2010);
+        x = Due.withBooks(2010, 2110, 2010);
         Due.text(x, "cost h+(n=3)*20");
         Due.row(Due.of(3), lengths(x));
         Due.text(x, "cost (n=3)*9");
@@ -253,7 +245,7 @@ final class SentencesTerms2 {
         y.set(0, 98);
         Due.row(Due.of(NONE, 0, 0, 0, 0), y.setting(-2), y.back(), y.setting(-2), y.setting(-1), y.cases(0));
         // One book that is too thick, or too high, and there is none.
-        x = withBooks(2010, 2010, 2099);
+        x = Due.withBooks(2010, 2010, 2099);
         x.set(0, 98);
         Due.all(NONE, x.setting(-2), x.setting(-1), x.setting(0));
         x.set(0, 99);
@@ -265,7 +257,7 @@ final class SentencesTerms2 {
     private static void casesFilled() {
         Doc.says("Terms 2", "CASES: of all ways to part BOOKS into LINES (as above), LINES in order from the first "
                 + "CASE on, each as high as SET and PLANK, the next CASE begun when one would be too high");
-        BookBoards x = withBooks(3060, 4060, 5060);
+        BookBoards x = Due.withBooks(3060, 4060, 5060);
         // Lines of 32, 42 and 52.
         x.set(2, 126);
         Due.row(Due.of(1, 126), x.cases(0), x.cases(1));
@@ -281,7 +273,7 @@ final class SentencesTerms2 {
         x.set(2, 120);
         Due.row(Due.of(1, 120), x.cases(0), x.cases(1));
         // A case is left for good: 30, then 40, and the last 10 does not go back to the first one.
-        x = withBooks(3060, 4060, 1060);
+        x = Due.withBooks(3060, 4060, 1060);
         x.set(1, 0);
         x.set(2, 49);
         Due.row(Due.of(3, 10), x.cases(0), x.cases(1));
@@ -294,7 +286,7 @@ final class SentencesTerms2 {
         x.set(2, 180);
         Due.row(Due.of(1, 180), x.cases(0), x.cases(1));
         // A case that is full to the greatest height there is, and the next one begun behind it.
-        x = withBooks(9960, 9960, 9960, 9960, 9960, 9960, 9960, 9960, 9960, 1860);
+        x = Due.withBooks(9960, 9960, 9960, 9960, 9960, 9960, 9960, 9960, 9960, 1860);
         x.set(1, 9);
         x.set(2, 999);
         Due.row(Due.of(1, 999), x.cases(0), x.cases(1));
@@ -303,7 +295,7 @@ final class SentencesTerms2 {
         x.book(9960, 0);
         Due.row(Due.of(2, 118), x.cases(0), x.cases(1));
         // The least height that can be used in a case, ahead of a full one.
-        x = withBooks(9960, 160, 9960, 160);
+        x = Due.withBooks(9960, 160, 9960, 160);
         x.set(1, 0);
         x.set(2, 99);
         Due.row(Due.of(4, 1), x.cases(0), x.cases(1));
@@ -328,7 +320,7 @@ final class SentencesTerms2 {
 
     private static void casesCantBe() {
         Doc.says("Terms 2", "(one that is higher than CASE can't be):");
-        BookBoards x = withBooks(2010, 9910);
+        BookBoards x = Due.withBooks(2010, 9910);
         x.set(1, 9);
         x.set(2, 108);
         Due.row(Due.of(1, 108), x.cases(0), x.cases(1));
@@ -336,7 +328,7 @@ final class SentencesTerms2 {
         Due.all(NONE, x.cases(0), x.cases(1));
         x.set(1, 8);
         Due.row(Due.of(1, 107), x.cases(0), x.cases(1));
-        x = withBooks(101);
+        x = Due.withBooks(101);
         x.set(1, 0);
         x.set(2, 1);
         Due.row(Due.of(1, 1), x.cases(0), x.cases(1));
@@ -347,7 +339,7 @@ final class SentencesTerms2 {
     private static void casesFewest() {
         Doc.says("Terms 2", "the fewest CASES, of these the least height that is used in the last one.");
         // The setting is 10, 30 (two books), 10, and would want three cases of 30.
-        BookBoards x = withBooks(1050, 3050, 3050, 1050);
+        BookBoards x = Due.withBooks(1050, 3050, 3050, 1050);
         x.set(1, 0);
         x.set(2, 30);
         Due.row(Due.of(50, 3), x.setting(-2), x.setting(-1));
@@ -357,21 +349,22 @@ final class SentencesTerms2 {
         x.set(2, 50);
         Due.row(Due.of(1, 50), x.cases(0), x.cases(1));
         // Of ways with two cases: 30 and then 10, or 30 and then 20, or 30 and then 20 and 10.
-        x = withBooks(3050, 2050, 1050);
+        x = Due.withBooks(3050, 2050, 1050);
         x.set(1, 0);
         x.set(2, 30);
         Due.row(Due.of(2, 10), x.cases(0), x.cases(1));
-        x = withBooks(1050, 2050, 3050);
+        x = Due.withBooks(1050, 2050, 3050);
         x.set(1, 0);
         x.set(2, 30);
         Due.row(Due.of(2, 30), x.cases(0), x.cases(1));
     }
 
     private static void few() {
-        Doc.says("Terms 2", "FEW by k: of all sets of k unlike HEIGHTS of BOOKS, in place of ALLOWED ones, that by which "
+        Doc.says("Terms 2",
+                "FEW by k: of all sets of k unlike HEIGHTS of BOOKS, in place of ALLOWED ones, that by which "
                 + "THE SETTING has the least PRICES together;");
         // Fewer unlike heights than k, just as many, and one more.
-        BookBoards x = withBooks(3060, 3060);
+        BookBoards x = Due.withBooks(3060, 3060);
         Due.row(Due.of(NONE, NONE, NONE, 64, 30), x.few(2, -1), x.few(2, 0), x.few(3, -1), x.few(1, -1), x.few(1, 0));
         x.book(2060, 0);
         Due.row(Due.of(NONE, 86, 20, 30, 96), x.few(3, -1), x.few(2, -1), x.few(2, 0), x.few(2, 1), x.few(1, -1));
@@ -401,12 +394,12 @@ final class SentencesTerms2 {
 
     private static void fewFirstOfSeveral() {
         Doc.says("Terms 2", "of several the first (heights rising, the lesser first).");
-        BookBoards x = withBooks(4010, 1010, 3010, 2010);
+        BookBoards x = Due.withBooks(4010, 1010, 3010, 2010);
         // One line of 40 by any set with 40: the lesser heights come first.
         Due.row(Due.of(42, 40), x.few(1, -1), x.few(1, 0));
         Due.row(Due.of(42, 10, 40), x.few(2, -1), x.few(2, 0), x.few(2, 1));
         Due.row(Due.of(42, 10, 20, 40), x.few(3, -1), x.few(3, 0), x.few(3, 1), x.few(3, 2));
-        x = withBooks(1060, 2060, 3060, 4060, 5060);
+        x = Due.withBooks(1060, 2060, 3060, 4060, 5060);
         Due.text(x, "cost h<50");
         Due.row(Due.of(1, 10, 50), x.few(2, -1), x.few(2, 0), x.few(2, 1));
         // Prices of 0 together, by the first set, by all of them, and by the last one alone.
@@ -446,7 +439,7 @@ final class SentencesTerms2 {
     private static void apart() {
         Doc.says("Terms 2", "APART from t (1 .. 100): BOOKS of HEIGHT t or more are by themselves, the others by "
                 + "themselves, both in their order, each with a SETTING (TIED does not matter); PRICES of both together,");
-        BookBoards x = withBooks(2060, 4050, 2040, 4050);
+        BookBoards x = Due.withBooks(2060, 4050, 2040, 4050);
         x.set(1, 0);
         Due.text(x, "walk 0");
         // Together 20, 40, 40 or so; apart 20 (60 + 40) and 40 (50 + 50).
@@ -467,22 +460,23 @@ final class SentencesTerms2 {
         x.clear();
         x.allow(39);
         Due.is(NONE, x.apart(40));
-        x = withBooks(2099, 4010);
+        x = Due.withBooks(2099, 4010);
         x.set(0, 98);
         Due.row(Due.of(NONE, NONE, NONE), x.apart(40), x.apart(1), x.apart(100));
-        x = withBooks(2010, 4099);
+        x = Due.withBooks(2010, 4099);
         x.set(0, 98);
         Due.row(Due.of(NONE, NONE, NONE), x.apart(40), x.apart(1), x.apart(100));
         // Heights of 99 and of 1.
-        x = withBooks(9960, 160, 9960, 160);
+        x = Due.withBooks(9960, 160, 9960, 160);
         x.set(1, 0);
         Due.row(Due.of(99 * 2 + 2, 99 * 2 + 2 + 10, 99 * 2 + 2 + 10, 99 * 2 + 2 + 20), x.apart(100), x.apart(99),
                 x.apart(2), x.apart(1));
     }
 
     private static void apartWalks() {
-        Doc.says("Terms 2", "and for each of HEIGHT t or more what walk gives (held within 0 .. 999; without a TEXT: 5).");
-        BookBoards x = withBooks(2010, 3010, 4010);
+        Doc.says("Terms 2",
+                "and for each of HEIGHT t or more what walk gives (held within 0 .. 999; without a TEXT: 5).");
+        BookBoards x = Due.withBooks(2010, 3010, 4010);
         Due.row(Due.of(42, 42 + 32 + 5, 42 + 22 + 10, 42 + 15), x.apart(100), x.apart(40), x.apart(30), x.apart(20));
         String[] walks = {"0", "0-1", "1", "998", "999", "1000", "9999*9999*21", "9999*9999*22", "h*p+h"};
         int[] held = {0, 0, 1, 998, 999, 999, 999, 0, 40};
@@ -505,7 +499,7 @@ final class SentencesTerms2 {
 
     private static void edge() {
         Doc.says("Terms 2", "THE EDGE: the t for which that is least;");
-        BookBoards x = withBooks(2060, 4050, 2040, 4050);
+        BookBoards x = Due.withBooks(2060, 4050, 2040, 4050);
         x.set(1, 0);
         Due.row(Due.of(100, 70, 40), x.apart(100), x.apart(40), x.edge());
         // Just less, and just not less.
@@ -522,10 +516,10 @@ final class SentencesTerms2 {
         Due.text(x, "cost n=1");
         Due.row(Due.of(2, 0, 40), x.apart(100), x.apart(40), x.edge());
         // The least edge that there can be (one more than the least height) and the greatest height.
-        x = withBooks(150, 250, 150, 250);
+        x = Due.withBooks(150, 250, 150, 250);
         Due.text(x, "cost h*100");
         Due.row(Due.of(400, 310, 2), x.apart(100), x.apart(2), x.edge());
-        x = withBooks(9850, 9950, 9850, 9950);
+        x = Due.withBooks(9850, 9950, 9850, 9950);
         Due.text(x, "cost h*100");
         Due.row(Due.of(19800, 19700 + 10, 99), x.apart(100), x.apart(99), x.edge());
         // There is none where a book can't be set.
@@ -537,7 +531,7 @@ final class SentencesTerms2 {
         x.allow(99);
         Due.isTrue(x.edge() != NONE, "an edge by the greatest allowed height");
         // Ties do not matter.
-        x = withBooks(2060, 4050, 2040, 4050);
+        x = Due.withBooks(2060, 4050, 2040, 4050);
         x.set(1, 0);
         x.tie(0, true);
         Due.row(Due.of(NONE, 40), x.setting(-2), x.edge());
@@ -546,7 +540,7 @@ final class SentencesTerms2 {
     private static void edgeOfSeveral() {
         Doc.says("Terms 2", "of several the greatest.");
         Due.is(100, new BookBoards().edge());
-        BookBoards x = withBooks(2060, 4050, 3040, 4050);
+        BookBoards x = Due.withBooks(2060, 4050, 3040, 4050);
         Due.text(x, "cost 1");
         Due.text(x, "walk 0");
         // 60, 50 + 40, 50: three lines; 60 + 40 and 50 + 50: two.
@@ -555,23 +549,23 @@ final class SentencesTerms2 {
         Due.text(x, "cost 0");
         Due.is(100, x.edge());
         // 31 to 40 are alike, and of two heights that are alike the greater one.
-        x = withBooks(2060, 4050, 3040, 5050);
+        x = Due.withBooks(2060, 4050, 3040, 5050);
         Due.text(x, "cost 1");
         Due.text(x, "walk 0");
         Due.row(Due.of(3, 3, 2, 3, 3), x.apart(100), x.apart(50), x.apart(40), x.apart(30), x.apart(20));
         Due.row(Due.of(2, 40), x.apart(31), x.edge());
-        x = withBooks(2060, 3050, 2040, 4050);
+        x = Due.withBooks(2060, 3050, 2040, 4050);
         Due.text(x, "cost 1");
         Due.text(x, "walk 0");
         Due.row(Due.of(3, 3, 2, 2, 3), x.apart(100), x.apart(40), x.apart(30), x.apart(21), x.apart(20));
         Due.is(30, x.edge());
         // Both 40 and 30 give the least.
-        x = withBooks(2060, 4050, 2035, 4045, 3005);
+        x = Due.withBooks(2060, 4050, 2035, 4045, 3005);
         Due.text(x, "cost 1");
         Due.text(x, "walk 0");
         Due.row(Due.of(3, 2, 2, 3), x.apart(100), x.apart(40), x.apart(30), x.apart(20));
         Due.is(40, x.edge());
-        x = withBooks(2060, 3040, 4060, 3040);
+        x = Due.withBooks(2060, 3040, 4060, 3040);
         Due.text(x, "cost 1");
         Due.text(x, "walk 0");
         Due.row(Due.of(2, 3, 3, 2), x.apart(100), x.apart(40), x.apart(30), x.apart(20));

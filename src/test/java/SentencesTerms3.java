@@ -112,7 +112,8 @@ final class SentencesTerms3 {
     }
 
     private static void grammar() {
-        Doc.says("Terms 3", "E, the loosest first: OR: AND { | AND }; AND: TEST { & TEST }; TEST: SUM [ (< | = | >) SUM ]; "
+        Doc.says("Terms 3",
+                "E, the loosest first: OR: AND { | AND }; AND: TEST { & TEST }; TEST: SUM [ (< | = | >) SUM ]; "
                 + "SUM: TERM { (+ | -) TERM }; TERM: PIECE { (* | /) PIECE }; PIECE: NUMBER (1 to 4 digits) | NAME | "
                 + "! PIECE | ( E ).");
         for (String sign : new String[] {"|", "&", "<", "=", ">", "+", "-", "*", "/"}) {
@@ -209,7 +210,8 @@ final class SentencesTerms3 {
     }
 
     private static void names() {
-        Doc.says("Terms 3", "NAMES, each one letter: of cost h SET, n how many BOOKS, l PLANK; of walk h HEIGHT, p PART; "
+        Doc.says("Terms 3",
+                "NAMES, each one letter: of cost h SET, n how many BOOKS, l PLANK; of walk h HEIGHT, p PART; "
                 + "of grow p PART, y the YEAR.");
         String[] keys = {"cost ", "walk ", "grow "};
         String[] names = {"hnl", "hp", "py"};
@@ -231,7 +233,7 @@ final class SentencesTerms3 {
     private static void namesGive() {
         Doc.says("Terms 3", "of cost h SET, n how many BOOKS, l PLANK; of walk h HEIGHT, p PART; of grow p PART, y the "
                 + "YEAR.");
-        BookBoards x = SentencesTerms2.withBooks(2010, 3010, 2510);
+        BookBoards x = Due.withBooks(2010, 3010, 2510);
         Due.text(x, "cost h");
         Due.is(30, x.setting(-2));
         x.allow(44);
@@ -264,7 +266,8 @@ final class SentencesTerms3 {
     }
 
     private static void words() {
-        Doc.says("Terms 3", "A word is a row of letters a .. z, or of digits, as long as it goes; any other byte is a sign "
+        Doc.says("Terms 3",
+                "A word is a row of letters a .. z, or of digits, as long as it goes; any other byte is a sign "
                 + "by itself.");
         // Every byte behind a name: letters make the word longer, digits need a blank, signs go on, end, or are wrong.
         for (int b = 0; b < 256; b++) {
@@ -299,7 +302,8 @@ final class SentencesTerms3 {
     }
 
     private static void blanks() {
-        Doc.says("Terms 3", "Between words and signs, and at the ends, there may be blanks (byte 32); a word right behind "
+        Doc.says("Terms 3",
+                "Between words and signs, and at the ends, there may be blanks (byte 32); a word right behind "
                 + "another one needs one.");
         right(1, "cost h");
         right(1, "   cost h");

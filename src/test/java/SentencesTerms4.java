@@ -29,7 +29,8 @@ final class SentencesTerms4 {
     }
 
     private static void grows() {
-        Doc.says("Terms 4", "YEARS are 1, 2, .. : in each YEAR each PART of which there is a BOOK grows by what grow gives");
+        Doc.says("Terms 4",
+                "YEARS are 1, 2, .. : in each YEAR each PART of which there is a BOOK grows by what grow gives");
         // The first year is 1: not 0, and none ahead of it.
         BookBoards x = ofParts(2010, 3);
         Due.text(x, "grow y");
@@ -82,7 +83,8 @@ final class SentencesTerms4 {
     }
 
     private static void fullBy() {
-        Doc.says("Terms 4", "FULL BY: the first YEAR, of 60, behind which some LINE is thicker than WIDTH (THICKNESS of its "
+        Doc.says("Terms 4",
+                "FULL BY: the first YEAR, of 60, behind which some LINE is thicker than WIDTH (THICKNESS of its "
                 + "BOOKS, and what grew at it).");
         BookBoards x = ofParts(2040, 0);
         x.set(0, 40);
@@ -140,9 +142,10 @@ final class SentencesTerms4 {
     }
 
     private static void wall() {
-        Doc.says("Terms 4", "A WALL of m boards of a height h: BOOKS from the first on stand on it, each board as many as "
+        Doc.says("Terms 4",
+                "A WALL of m boards of a height h: BOOKS from the first on stand on it, each board as many as "
                 + "its WIDTH takes, up to the first one that is higher than h, or has no room (TIED does not matter).");
-        BookBoards x = SentencesTerms2.withBooks(2050, 3050, 4050, 2051, 2050);
+        BookBoards x = Due.withBooks(2050, 3050, 4050, 2051, 2050);
         Due.row(Due.of(0, 2, 3, 4, 5, 5), x.wall(0, 99), x.wall(1, 99), x.wall(2, 99), x.wall(3, 99), x.wall(4, 99),
                 x.wall(24, 99));
         // As high as h, and higher by one.
@@ -164,7 +167,7 @@ final class SentencesTerms4 {
         x.allow(1);
         Due.row(Due.of(NONE, 2, 3), x.setting(-2), x.wall(1, 99), x.wall(2, 99));
         // No board takes none, be it as thin as can be; one board of the least width takes one.
-        BookBoards w = SentencesTerms2.withBooks(101, 101);
+        BookBoards w = Due.withBooks(101, 101);
         Due.row(Due.of(0, 2), w.wall(0, 99), w.wall(1, 1));
         w.set(0, 1);
         Due.row(Due.of(0, 1, 2), w.wall(0, 99), w.wall(1, 1), w.wall(2, 1));
@@ -179,7 +182,7 @@ final class SentencesTerms4 {
 
     private static void inch() {
         Doc.says("Terms 4", "AN INCH of v: PRICES of THE SETTING together by WIDTH and v, less those as it is.");
-        BookBoards x = SentencesTerms2.withBooks(2060, 3050, 2040);
+        BookBoards x = Due.withBooks(2060, 3050, 2040);
         // By 150 and more 32, by 90 and more 54, by 60 and more 76, else none.
         Due.row(Due.of(0, 0, -22, -22, 0, 22, 22, NONE, NONE), x.inch(0), x.inch(49), x.inch(50), x.inch(899),
                 x.inch(-10), x.inch(-11), x.inch(-40), x.inch(-41), x.inch(-99));
@@ -195,7 +198,7 @@ final class SentencesTerms4 {
     private static void shift() {
         Doc.says("Terms 4", "A SHIFT: if one more BOOK came to a place");
         Doc.says("Terms 4", "how many of the others would be in a LINE of another number than now.");
-        BookBoards x = SentencesTerms2.withBooks(2050, 2050, 2050, 2050);
+        BookBoards x = Due.withBooks(2050, 2050, 2050, 2050);
         // Two lines of two; one of 99 stands by itself.
         Due.row(Due.of(4, 3, 2, 1, 0), x.shift(0, 2099), x.shift(1, 2099), x.shift(2, 2099), x.shift(3, 2099),
                 x.shift(4, 2099));
@@ -204,7 +207,7 @@ final class SentencesTerms4 {
         Due.row(Due.of(4, 2), x.count(0), x.setting(-1));
         Due.row(Due.of(0, 0), new BookBoards().shift(0, 101), new BookBoards().shift(0, 9999));
         // Its height counts: a high one draws the other high one to it.
-        x = SentencesTerms2.withBooks(2040, 2040, 9020);
+        x = Due.withBooks(2040, 2040, 9020);
         Due.row(Due.of(0, 1), x.shift(3, 2020), x.shift(3, 9060));
         // With 23 books one more may come, to the first and to the last place.
         x = new BookBoards();
@@ -223,7 +226,7 @@ final class SentencesTerms4 {
         Due.row(Due.of(23, 22, 1, 0, 0), x.shift(0, 2023), x.shift(1, 2023), x.shift(22, 2023), x.shift(23, 2023),
                 x.shift(23, 2001));
         // Its height and its thickness are those of its size, to the last one.
-        x = SentencesTerms2.withBooks(2010);
+        x = Due.withBooks(2010);
         x.allow(30);
         Due.row(Due.of(1, 0, NONE), x.shift(0, 3099), x.shift(1, 3001), x.shift(0, 3101));
         x.set(0, 98);
@@ -235,7 +238,7 @@ final class SentencesTerms4 {
 
     private static void shiftTies() {
         Doc.says("Terms 4", "(not TIED, nor is the one ahead of it any more),");
-        BookBoards x = SentencesTerms2.withBooks(2050, 2050, 2050);
+        BookBoards x = Due.withBooks(2050, 2050, 2050);
         x.tie(0, true);
         Due.row(Due.of(2, 3), x.setting(-1), x.shift(0, 2060));
         // Between the tied ones: 50 + 50 and then 50, 50; were they tied still, it could not be.
@@ -251,18 +254,19 @@ final class SentencesTerms4 {
         // All is as it was.
         Due.row(Due.of(0, 1, 0), x.bookTold(0, 3), x.bookTold(1, 3), x.bookTold(2, 3));
         // Ties behind the place go on with their books, those ahead of it stay: 50 and 40 + 40, or 50 + 40 and 40.
-        x = SentencesTerms2.withBooks(2050, 2040, 2040);
+        x = Due.withBooks(2050, 2040, 2040);
         x.tie(1, true);
         Due.row(Due.of(1, 0, 0, 1), x.setting(1), x.shift(0, 2010), x.shift(1, 2010), x.shift(2, 2010));
         x.tie(1, false);
         Due.row(Due.of(2, 0, 0, 0), x.setting(1), x.shift(0, 2010), x.shift(1, 2010), x.shift(2, 2010));
-        x = SentencesTerms2.withBooks(2050, 2040, 2040, 2010);
+        x = Due.withBooks(2050, 2040, 2040, 2010);
         x.tie(1, true);
         Due.row(Due.of(1, 0, 0), x.setting(1), x.shift(3, 2010), x.shift(4, 2010));
     }
 
     private static void draws() {
-        Doc.says("Terms 4", "z is told (1 at first). A draw: z becomes z * 1103515245 + 12345 (an int); it gives z >>> 8.");
+        Doc.says("Terms 4",
+                "z is told (1 at first). A draw: z becomes z * 1103515245 + 12345 (an int); it gives z >>> 8.");
         Due.is(1, new BookBoards().count(9));
         for (int seed : new int[] {1, 0, -1, LEAST, GREATEST, 12345, -987654321}) {
             BookBoards x = new BookBoards();
@@ -281,7 +285,8 @@ final class SentencesTerms4 {
     }
 
     private static void drawnBooks() {
-        Doc.says("Terms 4", "A BOOK that is drawn: HEIGHT 20, and the rest of a draw by 30; THICKNESS 1, and that of one by "
+        Doc.says("Terms 4",
+                "A BOOK that is drawn: HEIGHT 20, and the rest of a draw by 30; THICKNESS 1, and that of one by "
                 + "20; PART that of one by 8.");
         int[] least = {99, 99, 99};
         int[] most = {-1, -1, -1};

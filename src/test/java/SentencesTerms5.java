@@ -57,21 +57,9 @@ final class SentencesTerms5 {
         Due.isTrue(found.toString().equals(String.join(" ", calls) + " "), "the calls there are " + found);
     }
 
-    /** What stands at a place of a sheet, by way of slot 4. */
-    static int at(BookBoards x, int sheet, int place) {
-        int laid = x.lay(4, 2, sheet);
-        return laid < 0 ? laid : x.item(4, place);
-    }
-
-    static void fill(BookBoards x, int sheet, int sort, int... values) {
-        x.sheet(sheet, sort, values.length);
-        for (int i = 0; i < values.length; i++) {
-            x.mark(sheet, i, values[i]);
-        }
-    }
-
     private static void sheets() {
-        Doc.says("Terms 5", "SHEETS 0 .. 3 are rows of shorts (sort 0) or floats (1; whole numbers), with 0 to 24 places, "
+        Doc.says("Terms 5",
+                "SHEETS 0 .. 3 are rows of shorts (sort 0) or floats (1; whole numbers), with 0 to 24 places, "
                 + "or MISSING (at first).");
         BookBoards x = new BookBoards();
         for (int sheet = 0; sheet <= 3; sheet++) {
@@ -81,17 +69,18 @@ final class SentencesTerms5 {
                 x.lay(0, 2, 4));
         for (int sort = 0; sort <= 1; sort++) {
             for (int sheet = 0; sheet <= 3; sheet++) {
-                Due.row(Due.of(0, INDEX, INDEX), x.sheet(sheet, sort, 0), x.mark(sheet, 0, 5), at(x, sheet, 0));
+                Due.row(Due.of(0, INDEX, INDEX), x.sheet(sheet, sort, 0), x.mark(sheet, 0, 5), Due.at(x, sheet, 0));
                 Due.row(Due.of(1, 1, INDEX), x.sheet(sheet, sort, 1), x.mark(sheet, 0, 5), x.mark(sheet, 1, 5));
                 Due.row(Due.of(24, 1, INDEX), x.sheet(sheet, sort, 24), x.mark(sheet, 23, 5), x.mark(sheet, 24, 5));
-                Due.row(Due.of(0, 0, 5, INDEX), at(x, sheet, 0), at(x, sheet, 22), at(x, sheet, 23), at(x, sheet, 24));
-                Due.row(Due.of(BAD, SIZE, 5), x.sheet(sheet, sort, 25), x.sheet(sheet, sort, -1), at(x, sheet, 23));
+                Due.row(Due.of(0, 0, 5, INDEX), Due.at(x, sheet, 0), Due.at(x, sheet, 22), Due.at(x, sheet, 23),
+                        Due.at(x, sheet, 24));
+                Due.row(Due.of(BAD, SIZE, 5), x.sheet(sheet, sort, 25), x.sheet(sheet, sort, -1), Due.at(x, sheet, 23));
             }
         }
         // Each by itself.
         x.mark(0, 0, 100);
         x.mark(3, 0, 103);
-        Due.row(Due.of(100, 0, 0, 103), at(x, 0, 0), at(x, 1, 0), at(x, 2, 0), at(x, 3, 0));
+        Due.row(Due.of(100, 0, 0, 103), Due.at(x, 0, 0), Due.at(x, 1, 0), Due.at(x, 2, 0), Due.at(x, 3, 0));
         Due.all(BAD, x.sheet(0, -2, 1), x.sheet(0, 2, 1));
     }
 
@@ -99,16 +88,16 @@ final class SentencesTerms5 {
         Doc.says("Terms 5", "A place of floats may be NO NUMBER.");
         BookBoards x = new BookBoards();
         x.sheet(0, 1, 2);
-        Due.row(Due.of(1, KIND, 0), x.mark(0, 0, NONE), at(x, 0, 0), at(x, 0, 1));
-        Due.row(Due.of(1, 0, 1, KIND), x.mark(0, 0, 0), at(x, 0, 0), x.mark(0, 1, NONE), at(x, 0, 1));
+        Due.row(Due.of(1, KIND, 0), x.mark(0, 0, NONE), Due.at(x, 0, 0), Due.at(x, 0, 1));
+        Due.row(Due.of(1, 0, 1, KIND), x.mark(0, 0, 0), Due.at(x, 0, 0), x.mark(0, 1, NONE), Due.at(x, 0, 1));
         x.sheet(1, 0, 2);
-        Due.row(Due.of(KIND, 0), x.mark(1, 0, NONE), at(x, 1, 0));
+        Due.row(Due.of(KIND, 0), x.mark(1, 0, NONE), Due.at(x, 1, 0));
         // The numbers next to NONE are none of floats, and shorts take their lowest bits.
         Due.row(Due.of(BAD, BAD), x.mark(0, 0, NONE - 1), x.mark(0, 0, NONE + 1));
-        Due.row(Due.of(1, (short) (NONE + 1)), x.mark(1, 0, NONE + 1), at(x, 1, 0));
-        Due.row(Due.of(1, (short) (NONE - 1)), x.mark(1, 0, NONE - 1), at(x, 1, 0));
+        Due.row(Due.of(1, (short) (NONE + 1)), x.mark(1, 0, NONE + 1), Due.at(x, 1, 0));
+        Due.row(Due.of(1, (short) (NONE - 1)), x.mark(1, 0, NONE - 1), Due.at(x, 1, 0));
         // A short whose lowest bits are those of NONE is a number.
-        Due.row(Due.of(1, (short) NONE), x.mark(1, 0, NONE & 65535), at(x, 1, 0));
+        Due.row(Due.of(1, (short) NONE), x.mark(1, 0, NONE & 65535), Due.at(x, 1, 0));
     }
 
     private static void slots() {
@@ -126,14 +115,15 @@ final class SentencesTerms5 {
     }
 
     private static void slotsKeep() {
-        Doc.says("Terms 5", "a BOARD (as it is then, for good; BOOKS never change), a SHEET (a row of its own, as it was "
+        Doc.says("Terms 5",
+                "a BOARD (as it is then, for good; BOOKS never change), a SHEET (a row of its own, as it was "
                 + "then), or a number.");
         BookBoards x = new BookBoards();
         x.keep();
         x.book(2010, 0);
         x.book(2010, 0);
         x.board(3, 1, 7);
-        fill(x, 0, 1, 5, NONE, -99999);
+        Due.fill(x, 0, 1, 5, NONE, -99999);
         Due.row(Due.of(0, 0, 0), x.lay(0, 1, 0), x.lay(1, 2, 0), x.lay(2, 3, LEAST));
         // The board turns, goes, others come in its place, all its books go.
         x.turns(0, 5);
@@ -155,7 +145,7 @@ final class SentencesTerms5 {
         Due.row(Due.of(5, KIND, -99999), x.item(1, 0), x.item(1, 1), x.item(1, 2));
         Due.row(Due.of(-8, -8), x.rest(2, 10), x.rest(2, 10));
         // Two slots with the same thing hold one each.
-        fill(x, 2, 0, 1);
+        Due.fill(x, 2, 0, 1);
         x.lay(3, 2, 2);
         x.mark(2, 0, 2);
         x.lay(4, 2, 2);
@@ -241,7 +231,7 @@ final class SentencesTerms5 {
         Due.row(Due.of(100, 2, 336), y.set(0, 1), y.set(1, 0), y.set(2, 1));
         Due.row(Due.of(FULL, FULL, NO), y.book(101, 0), y.board(0, 0, 0), y.allow(99));
         // Allowed heights come back, not only how many they were.
-        BookBoards w = SentencesTerms2.withBooks(2010);
+        BookBoards w = Due.withBooks(2010);
         w.allow(21);
         w.allow(50);
         w.keep();
@@ -287,7 +277,7 @@ final class SentencesTerms5 {
     private static void imageLeavesOut() {
         Doc.says("Terms 5", "AN IMAGE keeps all but SHEETS, SLOTS, numbers that wait, THE TAPE;");
         BookBoards x = new BookBoards();
-        fill(x, 0, 0, 1, 2);
+        Due.fill(x, 0, 0, 1, 2);
         x.lay(0, 3, 17);
         x.tell(5);
         Due.tape(x, "cost ");
@@ -300,7 +290,7 @@ final class SentencesTerms5 {
         x.tell(6);
         Due.tape(x, "h+n");
         x.back();
-        Due.row(Due.of(9, 0, 8, 2, 8), at(x, 0, 0), at(x, 1, 0), x.rest(0, 10), x.count(7), x.count(8));
+        Due.row(Due.of(9, 0, 8, 2, 8), Due.at(x, 0, 0), Due.at(x, 1, 0), x.rest(0, 10), x.count(7), x.count(8));
         Due.row(Due.of(4, 0, 2), x.rest(1, 10), x.text(), x.textTold(0, 1));
         x.sheet(0, -1, 0);
         x.lay(0, 0, 0);

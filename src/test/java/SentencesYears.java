@@ -22,20 +22,20 @@ final class SentencesYears {
     private static void fullBy() {
         Doc.says("Promise 27", "FULL BY.");
         for (int year = 1; year <= 60; year++) {
-            BookBoards x = SentencesTerms2.withBooks(2030);
+            BookBoards x = Due.withBooks(2030);
             x.set(0, 29 + year);
             Due.is(year, x.fullBy());
         }
         // Nothing has grown behind the call.
         Twins.same(4, Twins.State.SOME, x -> x.fullBy());
-        BookBoards x = SentencesTerms2.withBooks(2030);
+        BookBoards x = Due.withBooks(2030);
         x.set(0, 40);
         Due.row(Due.of(11, 11, 30), x.fullBy(), x.fullBy(), x.most(0, 1));
     }
 
     private static void fullByNone() {
         Doc.says("Promise 27", "NONE: not by 60 YEARS, or there is no SETTING, or it has no LINES.");
-        BookBoards x = SentencesTerms2.withBooks(2030);
+        BookBoards x = Due.withBooks(2030);
         x.set(0, 89);
         Due.is(60, x.fullBy());
         x.set(0, 90);
@@ -85,7 +85,7 @@ final class SentencesYears {
 
     private static void wall() {
         Doc.says("Promise 29", "How many BOOKS stand on A WALL of m (0 .. 24) boards of a height h (1 .. 99).");
-        BookBoards x = SentencesTerms2.withBooks(150, 150, 9950, 101);
+        BookBoards x = Due.withBooks(150, 150, 9950, 101);
         Due.row(Due.of(0, 2, 4, 4), x.wall(0, 99), x.wall(1, 99), x.wall(2, 99), x.wall(24, 99));
         Due.row(Due.of(0, 2, 2, 2), x.wall(0, 1), x.wall(1, 1), x.wall(24, 1), x.wall(24, 98));
         Due.row(Due.of(0, 0, 0), new BookBoards().wall(0, 1), new BookBoards().wall(1, 1),
@@ -103,7 +103,7 @@ final class SentencesYears {
 
     private static void inch() {
         Doc.says("Promise 30", "AN INCH of v.");
-        BookBoards x = SentencesTerms2.withBooks(2050, 3051);
+        BookBoards x = Due.withBooks(2050, 3051);
         // 101 takes both: 32 in place of 54.
         Due.row(Due.of(0, -22, -22, 0, 0), x.inch(0), x.inch(1), x.inch(899), x.inch(-1), x.inch(-49));
         x.set(0, 101);
@@ -117,9 +117,11 @@ final class SentencesYears {
 
     private static void inchRefused() {
         Doc.says("Promise 30", "BAD: WIDTH and v would not be 1 .. 999; NONE: one of both has no SETTING.");
-        Twins.same(BAD, Twins.State.BARE, x -> x.inch(-100), x -> x.inch(900), x -> x.inch(LEAST), x -> x.inch(GREATEST));
+        Twins.same(BAD, Twins.State.BARE, x -> x.inch(-100), x -> x.inch(900), x -> x.inch(LEAST),
+                x -> x.inch(GREATEST));
         Twins.same(0, Twins.State.BARE, x -> x.inch(-99), x -> x.inch(899));
-        Twins.same(BAD, Twins.State.TIGHT, x -> x.inch(-9), x -> x.inch(991), x -> x.inch(LEAST), x -> x.inch(GREATEST));
+        Twins.same(BAD, Twins.State.TIGHT, x -> x.inch(-9), x -> x.inch(991), x -> x.inch(LEAST),
+                x -> x.inch(GREATEST));
         Twins.same(NONE, Twins.State.TIGHT, x -> x.inch(-8), x -> x.inch(990), x -> x.inch(0));
         Twins.same(NONE, Twins.State.SOME, x -> x.inch(-59), x -> x.inch(-31));
         Twins.same(BAD, Twins.State.SOME, x -> x.inch(-60), x -> x.inch(940));
@@ -136,7 +138,7 @@ final class SentencesYears {
     private static void shift() {
         Doc.says("Promise 31", "A SHIFT by a BOOK (size as of book()) at a place 0 .. how many BOOKS there are.");
         Due.row(Due.of(0, 0), new BookBoards().shift(0, 101), new BookBoards().shift(0, 9999));
-        BookBoards x = SentencesTerms2.withBooks(2060, 2060, 2060);
+        BookBoards x = Due.withBooks(2060, 2060, 2060);
         Due.row(Due.of(3, 2, 1, 0), x.shift(0, 2060), x.shift(1, 2060), x.shift(2, 2060), x.shift(3, 2060));
         Due.row(Due.of(0, 0, 0, 0), x.shift(0, 2040), x.shift(1, 2040), x.shift(2, 2040), x.shift(3, 2040));
         Due.row(Due.of(0, 3, 2, 0), x.shift(0, 101), x.shift(0, 9999), x.shift(1, 9999), x.shift(3, 9999));
@@ -157,7 +159,7 @@ final class SentencesYears {
         BookBoards x = Twins.made(Twins.State.FULL);
         x.set(0, 1);
         Due.row(Due.of(NONE, FULL), x.setting(-2), x.shift(0, 101));
-        BookBoards y = SentencesTerms2.withBooks(2060, 2060);
+        BookBoards y = Due.withBooks(2060, 2060);
         Due.row(Due.of(0, 0), y.shift(2, 2099), y.shift(2, 2040));
         y.set(0, 98);
         Due.row(Due.of(NONE, 0), y.shift(2, 2099), y.shift(2, 2098));

@@ -17,19 +17,11 @@ public final class SettingTest {
         Due.end();
     }
 
-    private static BookBoards withBooks(int... sizes) {
-        BookBoards x = new BookBoards();
-        for (int size : sizes) {
-            x.book(size, 0);
-        }
-        return x;
-    }
-
     private static void promise14Setting() {
         BookBoards x = new BookBoards();
         Due.row(Due.of(0, 0, NONE, NONE, BAD, BAD), x.setting(-2), x.setting(-1), x.setting(0), x.setting(GREATEST),
                 x.setting(-3), x.setting(LEAST));
-        x = withBooks(2040, 3030, 3030, 2040);
+        x = Due.withBooks(2040, 3030, 3030, 2040);
         Due.row(Due.of(54, 2, 0, 3), x.setting(-2), x.setting(-1), x.setting(0), x.setting(1));
         x.set(0, 60);
         Due.row(Due.of(76, 3, 0, 1, 3, NONE), x.setting(-2), x.setting(-1), x.setting(0), x.setting(1), x.setting(2),
@@ -40,7 +32,7 @@ public final class SettingTest {
         x.set(0, 999);
         Due.row(Due.of(32, 1, 0, NONE), x.setting(-2), x.setting(-1), x.setting(0), x.setting(1));
         // Of ways with the same prices the one with the longest first line, then the longest second one.
-        x = withBooks(2030, 2030, 2030, 2030, 2030);
+        x = Due.withBooks(2030, 2030, 2030, 2030, 2030);
         x.set(0, 90);
         Due.row(Due.of(44, 2, 0, 3), x.setting(-2), x.setting(-1), x.setting(0), x.setting(1));
         x.set(0, 60);
@@ -50,7 +42,7 @@ public final class SettingTest {
     }
 
     private static void promise14Ties() {
-        BookBoards x = withBooks(2010, 2010, 9010, 2010);
+        BookBoards x = Due.withBooks(2010, 2010, 9010, 2010);
         x.set(0, 20);
         x.set(1, 0);
         Due.row(Due.of(110, 2, 2), x.setting(-2), x.setting(-1), x.setting(1));
@@ -65,7 +57,7 @@ public final class SettingTest {
     }
 
     private static void promise14Prices() {
-        BookBoards x = withBooks(2010, 2010, 3010);
+        BookBoards x = Due.withBooks(2010, 2010, 3010);
         Due.is(0, Due.text(x, "cost 0-5"));
         Due.row(Due.of(0, 1, 0), x.setting(-2), x.setting(-1), x.line(0, 4));
         Due.is(1, Due.text(x, "cost 9999*9999"));
@@ -73,7 +65,7 @@ public final class SettingTest {
         Due.is(2, Due.text(x, "cost n*n*n*200+h*10+l"));
         Due.row(Due.of(402 + 402 + 502, 3), x.setting(-2), x.setting(-1));
         Due.row(Due.of(402, 402, 502), x.line(0, 4), x.line(1, 4), x.line(2, 4));
-        BookBoards y = withBooks(2010, 2010, 2110);
+        BookBoards y = Due.withBooks(2010, 2010, 2110);
         Due.text(y, "cost h*n");
         Due.row(Due.of(61, 2, 40, 21), y.setting(-2), y.setting(-1), y.line(0, 4), y.line(1, 4));
         x.set(1, 9);
@@ -86,7 +78,7 @@ public final class SettingTest {
         BookBoards x = new BookBoards();
         Due.all(NONE, x.line(0, 0), x.line(0, 4), x.line(GREATEST, 0));
         Due.all(BAD, x.line(-1, 0), x.line(0, 5), x.line(0, -1), x.line(LEAST, 0), x.line(0, LEAST));
-        x = withBooks(2040, 3030, 2530, 2040);
+        x = Due.withBooks(2040, 3030, 2530, 2040);
         x.set(0, 70);
         x.allow(28);
         x.allow(45);
@@ -103,7 +95,7 @@ public final class SettingTest {
     }
 
     private static void promise16Allow() {
-        BookBoards x = withBooks(3010);
+        BookBoards x = Due.withBooks(3010);
         Due.all(BAD, x.allow(0), x.allow(100), x.allow(-1), x.allow(LEAST), x.allow(GREATEST));
         Due.row(Due.of(1, 2, NO, NO), x.allow(99), x.allow(1), x.allow(99), x.allow(1));
         Due.is(99, x.line(0, 3));
@@ -121,7 +113,7 @@ public final class SettingTest {
     }
 
     private static void promise17Clear() {
-        BookBoards x = withBooks(3010);
+        BookBoards x = Due.withBooks(3010);
         Due.is(0, x.clear());
         x.allow(40);
         x.allow(20);
@@ -134,7 +126,7 @@ public final class SettingTest {
         BookBoards x = new BookBoards();
         Due.row(Due.of(0, 0), x.cases(0), x.cases(1));
         Due.all(BAD, x.cases(-1), x.cases(2), x.cases(LEAST), x.cases(GREATEST));
-        x = withBooks(3050, 2050, 4050, 2050, 2050);
+        x = Due.withBooks(3050, 2050, 4050, 2050, 2050);
         x.set(1, 3);
         // Lines of 33 and 43 and 23, or 33, 23, 43, 23, 23 and so on.
         x.set(2, 999);
@@ -152,23 +144,23 @@ public final class SettingTest {
         x.set(0, 49);
         Due.is(NONE, x.cases(0));
         // A case that is full to its greatest height.
-        x = withBooks(9960, 9960, 9960, 9960, 9960, 9960, 9960, 9960, 9960, 1860);
+        x = Due.withBooks(9960, 9960, 9960, 9960, 9960, 9960, 9960, 9960, 9960, 1860);
         x.set(1, 9);
         x.set(2, 999);
         Due.row(Due.of(1, 999), x.cases(0), x.cases(1));
         x.set(2, 998);
         Due.row(Due.of(2, 27), x.cases(0), x.cases(1));
         // Two lines by pairs: the lesser height is used, whichever way comes first.
-        x = withBooks(3050, 3050, 1050);
+        x = Due.withBooks(3050, 3050, 1050);
         Due.row(Due.of(1, 32 + 12), x.cases(0), x.cases(1));
-        x = withBooks(1050, 3050, 3050);
+        x = Due.withBooks(1050, 3050, 3050);
         Due.row(Due.of(1, 12 + 32), x.cases(0), x.cases(1));
         x.set(2, 43);
         Due.row(Due.of(2, 32), x.cases(0), x.cases(1));
         x.allow(29);
         Due.all(NONE, x.cases(0), x.cases(1));
         // A text of prices does not matter here; ties and allowed heights do.
-        x = withBooks(3050, 2050);
+        x = Due.withBooks(3050, 2050);
         Due.text(x, "cost 1");
         Due.is(32, x.cases(1));
         x.allow(35);
@@ -183,7 +175,7 @@ public final class SettingTest {
         x.set(2, 37);
         Due.row(Due.of(2, 22), x.cases(0), x.cases(1));
         // The least prices would not be the fewest cases: here it pays to part the books otherwise.
-        x = withBooks(1050, 3050, 3050, 1050);
+        x = Due.withBooks(1050, 3050, 3050, 1050);
         x.set(1, 0);
         x.set(2, 30);
         Due.row(Due.of(2, 30), x.cases(0), x.cases(1));
@@ -195,7 +187,7 @@ public final class SettingTest {
         Due.row(Due.of(NONE, NONE, NONE), x.few(1, -1), x.few(1, 0), x.few(3, 2));
         Due.all(BAD, x.few(0, -1), x.few(4, -1), x.few(1, 1), x.few(2, 2), x.few(3, 3), x.few(1, -2),
                 x.few(LEAST, 0), x.few(GREATEST, 0), x.few(1, LEAST), x.few(3, GREATEST));
-        x = withBooks(2060, 3060, 2060, 4060, 2060);
+        x = Due.withBooks(2060, 3060, 2060, 4060, 2060);
         x.set(1, 0);
         Due.row(Due.of(200, 40), x.few(1, -1), x.few(1, 0));
         Due.row(Due.of(140, 20, 40), x.few(2, -1), x.few(2, 0), x.few(2, 1));
@@ -205,27 +197,27 @@ public final class SettingTest {
         x.set(0, 59);
         Due.all(NONE, x.few(1, -1), x.few(2, 0), x.few(3, 2));
         // Fewer unlike heights than asked for.
-        x = withBooks(2060, 3060, 2060);
+        x = Due.withBooks(2060, 3060, 2060);
         Due.row(Due.of(NONE, NONE, 76), x.few(3, -1), x.few(3, 0), x.few(2, -1));
         // Of like ones the lesser heights first.
-        x = withBooks(1010, 2010, 3010, 4010);
+        x = Due.withBooks(1010, 2010, 3010, 4010);
         Due.row(Due.of(42, 10, 40), x.few(2, -1), x.few(2, 0), x.few(2, 1));
         Due.row(Due.of(42, 10, 20, 40), x.few(3, -1), x.few(3, 0), x.few(3, 1), x.few(3, 2));
         // Sets in the midst of all of them, and the last one.
-        x = withBooks(1060, 2060, 2060, 2060, 3060, 4060, 4060, 5060);
+        x = Due.withBooks(1060, 2060, 2060, 2060, 3060, 4060, 4060, 5060);
         x.set(1, 0);
         Due.row(Due.of(400, 280, 20, 50), x.few(1, -1), x.few(2, -1), x.few(2, 0), x.few(2, 1));
         Due.row(Due.of(250, 20, 40, 50), x.few(3, -1), x.few(3, 0), x.few(3, 1), x.few(3, 2));
-        x = withBooks(3060, 3060, 3060, 3060, 4060, 4060, 4060, 1060, 5060);
+        x = Due.withBooks(3060, 3060, 3060, 3060, 4060, 4060, 4060, 1060, 5060);
         x.set(1, 0);
         Due.row(Due.of(320, 30, 40, 50), x.few(3, -1), x.few(3, 0), x.few(3, 1), x.few(3, 2));
-        x = withBooks(2060, 2060, 2060, 3060, 3060, 3060, 1060, 4060, 5060);
+        x = Due.withBooks(2060, 2060, 2060, 3060, 3060, 3060, 1060, 4060, 5060);
         x.set(1, 0);
         Due.row(Due.of(270, 20, 30, 50), x.few(3, -1), x.few(3, 0), x.few(3, 1), x.few(3, 2));
         Due.text(x, "cost 0");
         Due.row(Due.of(0, 10, 20, 50), x.few(3, -1), x.few(3, 0), x.few(3, 1), x.few(3, 2));
         // Ties count, and the text of prices.
-        x = withBooks(2060, 4030, 2030);
+        x = Due.withBooks(2060, 4030, 2030);
         x.set(1, 0);
         Due.is(60, x.few(2, -1));
         x.tie(1, true);
@@ -239,7 +231,7 @@ public final class SettingTest {
         BookBoards x = new BookBoards();
         Due.row(Due.of(0, 0, BAD, BAD, BAD, BAD), x.apart(1), x.apart(100), x.apart(0), x.apart(101),
                 x.apart(LEAST), x.apart(GREATEST));
-        x = withBooks(2060, 4050, 2040, 4050, 3001);
+        x = Due.withBooks(2060, 4050, 2040, 4050, 3001);
         x.set(1, 0);
         Due.row(Due.of(20 + 40 + 40, 20 + 30 + 40 + 10), x.apart(100), x.apart(40));
         Due.is(20 + 40 + 40 + 25, x.apart(1));
@@ -293,7 +285,7 @@ public final class SettingTest {
 
     private static void promise21Edge() {
         Due.is(100, new BookBoards().edge());
-        BookBoards x = withBooks(2060, 4050, 2040, 4050, 2060, 4040);
+        BookBoards x = Due.withBooks(2060, 4050, 2040, 4050, 2060, 4040);
         // Together 20, 40, 40, 40; apart 20, 20, 40, 40 and 15 for walking.
         x.set(1, 0);
         Due.row(Due.of(140, 135, 40), x.apart(100), x.apart(40), x.edge());
@@ -309,12 +301,12 @@ public final class SettingTest {
         x.set(0, 60);
         x.allow(39);
         Due.is(NONE, x.edge());
-        x = withBooks(2060, 9950, 2040, 9950);
+        x = Due.withBooks(2060, 9950, 2040, 9950);
         x.set(1, 0);
         Due.row(Due.of(218, 129, 99), x.apart(100), x.apart(99), x.edge());
         edgeIsLeast();
         // A single tall book of the lowest height there can be.
-        x = withBooks(101);
+        x = Due.withBooks(101);
         Due.is(100, x.edge());
         Due.text(x, "cost h*0+5");
         Due.is(100, x.edge());
