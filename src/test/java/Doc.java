@@ -9,11 +9,12 @@ import java.util.regex.Pattern;
 
 /**
  * The document by its sections, so that each test of a sentence names one that stands there, and none is left out.
- * A section is "Head", "Face", "Terms" (ahead of its five parts), "Terms 1" to "Terms 5", or "Promise 1" to
- * "Promise 44".
+ * A section is "Head", "Face", "Terms" (ahead of its five parts), "Terms 1" to "Terms 5", "Promise 1" to
+ * "Promise 44", or "Not promised".
  */
 final class Doc {
     private static final Path FILE = Path.of("../shared/DOC.md");
+    private static final String LAST = "## Not promised";
     private static final Map<String, String> SECTIONS = new LinkedHashMap<>();
     private static final Map<String, BitSet> SAID = new LinkedHashMap<>();
     private static int sentences = 0;
@@ -91,7 +92,8 @@ final class Doc {
         while (m.find()) {
             SECTIONS.put("Promise " + m.group(1), m.group(2));
         }
-        Due.is(2 + 6 + 44, SECTIONS.size());
+        SECTIONS.put("Not promised", all.substring(all.indexOf(LAST) + LAST.length()));
+        Due.is(2 + 6 + 44 + 1, SECTIONS.size());
     }
 
     private static String between(String all, String from, String to) {

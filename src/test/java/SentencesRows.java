@@ -19,6 +19,7 @@ final class SentencesRows {
         count();
         countRefused();
         tellingChangesNothing();
+        notPromised();
     }
 
     private static void tell() {
@@ -232,5 +233,24 @@ final class SentencesRows {
             Twins.same(call.on(Twins.made(Twins.State.SOME)), Twins.State.SOME, call);
             Twins.same(call.on(Twins.made(Twins.State.FULL)), Twins.State.FULL, call);
         }
+    }
+
+    private static void notPromised() {
+        Doc.saysBeside("Not promised",
+                "How the state is held inside the object is free, as are the speed of each call, the text of toString "
+                + "and the behaviour of equals and hashCode. Use of one object from several threads at once is not "
+                + "promised to be safe.");
+        Doc.says("Not promised",
+                "Nothing is promised beyond the answers and state changes described above, and nothing about an object "
+                + "after its 512th call.");
+        // What later calls answer is free, but by LANGUAGE.md none of them throws.
+        BookBoards x = Twins.made(Twins.State.FULL);
+        int ended = 0;
+        for (int i = 0; i < 600; i++) {
+            Due.of(x.feed(i, -i, 7), x.text(), x.tell(i), x.keep(), x.back(), x.deal(24), x.board(0, 0, 0),
+                    x.allow(i % 99), x.setting(-2), x.check(30), x.drop(0), x.clear());
+            ended++;
+        }
+        Due.is(600, ended);
     }
 }
